@@ -37,8 +37,7 @@ public final class BlushCourt {
     private final Court scratch = new Court();
     private final Court kept = new Court();
     private final History history = new History();
-    private final CourtText courtText = new CourtText();
-    private final LawText lawText = new LawText();
+    private final CourtText courtText = new CourtText(tape);
     private final Blush blush = new Blush(ruling);
     private final Worlds worlds = new Worlds(blush);
     private final Apart parting = new Apart();
@@ -71,8 +70,8 @@ public final class BlushCourt {
 
     public int court() throws IllegalArgumentException, UnsupportedOperationException {
         scratch.copy(now);
-        wrongByte = courtText.read(tape, scratch);
-        tape.size = 0;
+        wrongByte = courtText.read(scratch) ? NONE : tape.begin;
+        tape.useUp();
         if (wrongByte != NONE) {
             throw new IllegalArgumentException("the text is wrong");
         }
@@ -86,8 +85,8 @@ public final class BlushCourt {
     }
 
     public int law() throws IllegalArgumentException {
-        wrongByte = lawText.read(tape, draftLaw);
-        tape.size = 0;
+        wrongByte = draftLaw.read(tape) ? NONE : tape.begin;
+        tape.useUp();
         if (wrongByte != NONE) {
             throw new IllegalArgumentException("the text is wrong");
         }
@@ -355,7 +354,7 @@ public final class BlushCourt {
     }
 
     public int wrong() throws IllegalArgumentException {
-        int rows = useRows(now.women, now.row.count, TOP);
+        int rows = needRows(tape.useUp(), now.women, now.row.count, TOP);
         int best = (1 << now.women) - 1;
         for (int left = 0; left < 1 << now.women; left++) {
             if (Integer.bitCount(left) < Integer.bitCount(best) && allMayBe(rows, left)) {
@@ -366,11 +365,9 @@ public final class BlushCourt {
     }
 
     public int shades(int witness) throws IndexOutOfBoundsException, IllegalArgumentException {
-        int size = tape.size;
-        tape.size = 0;
+        int size = tape.useUp();
         needWitness(witness);
-        tape.size = size;
-        return shadesLeft(useRows(now.women, now.row.count, TOP), witness, 0);
+        return shadesLeft(needRows(size, now.women, now.row.count, TOP), witness, 0);
     }
 
     public int vinegar(int witness, int question) throws IndexOutOfBoundsException {
@@ -661,10 +658,8 @@ public final class BlushCourt {
         }
     }
 
-    /** Uses the tape up, also where it is wrong; its bytes stay where they are until more are fed. */
-    private int useRows(int firsts, int seconds, int most) {
-        int size = tape.size;
-        tape.size = 0;
+    /** How many rows of three are told; each of their three numbers must be one that can be. */
+    private int needRows(int size, int firsts, int seconds, int most) {
         int rows = size / 3;
         boolean right = size % 3 == 0 && rows <= MOST_TOLD;
         for (int r = 0; r < rows && right; r++) {
@@ -677,7 +672,7 @@ public final class BlushCourt {
     }
 
     private long fittingWorlds() {
-        int rows = useRows(now.questions, now.row.count, 255);
+        int rows = needRows(tape.useUp(), now.questions, now.row.count, 255);
         return worlds.fitting(now, tape, rows);
     }
 
@@ -766,10 +761,18 @@ public final class BlushCourt {
         return sharp < 1 ? 0 : number / sharp * sharp;
     }
 
-    /** What is fed and not used up yet. */
+    /** What is fed and not used up yet; as a text it is read word by word, and the word that stands here is looked at. */
     private static final class Tape {
+        private static final int END = 0;
+        private static final int WORD = 1;
+        private static final int NUMBER = 2;
+        private static final int SIGN = 3;
+
         private final int[] bytes = new int[MOST_BYTES];
         private int size = 0;
+        private int kind = END;
+        private int begin = 0;
+        private int behind = 0;
 
         void add(int number) {
             for (int shift = 24; shift >= 0 && size < MOST_BYTES; shift -= 8) {
@@ -778,9 +781,118 @@ public final class BlushCourt {
             }
         }
 
+        /** How many bytes there were; these stay where they are until more are fed. */
+        int useUp() {
+            int had = size;
+            size = 0;
+            return had;
+        }
+
         int told(int row, int part) {
-            int at = 3 * row + part;
-            return at < 0 || at >= MOST_BYTES ? 0 : bytes[at];
+            int i = 3 * row + part;
+            return i < 0 || i >= MOST_BYTES ? 0 : bytes[i];
+        }
+
+        void open() {
+            behind = 0;
+            advance();
+        }
+
+        void advance() {
+            begin = behind;
+            while (begin < size && bytes[begin] == ' ') {
+                begin++;
+            }
+            behind = begin;
+            while (behind < size && bytes[behind] >= 'a' && bytes[behind] <= 'z') {
+                behind++;
+            }
+            kind = WORD;
+            if (behind > begin) {
+                return;
+            }
+            while (behind < size && bytes[behind] >= '0' && bytes[behind] <= '9') {
+                behind++;
+            }
+            kind = NUMBER;
+            if (behind > begin) {
+                return;
+            }
+            kind = begin < size ? SIGN : END;
+            behind = Math.min(size, begin + 1);
+        }
+
+        boolean isEnd() {
+            return kind == END;
+        }
+
+        boolean isSign(char sign) {
+            return kind == SIGN && bytes[begin] == sign;
+        }
+
+        boolean isWord(String word) {
+            if (kind != WORD || behind - begin != word.length()) {
+                return false;
+            }
+            for (int i = 0; i < word.length(); i++) {
+                if (bytes[begin + i] != word.charAt(i)) {
+                    return false;
+                }
+            }
+            return true;
+        }
+
+        boolean takeSign(char sign) {
+            if (!isSign(sign)) {
+                return false;
+            }
+            advance();
+            return true;
+        }
+
+        boolean takeWord(String word) {
+            if (!isWord(word)) {
+                return false;
+            }
+            advance();
+            return true;
+        }
+
+        /** The number that stands here; NONE, and nothing is taken, if it is none from least to most. */
+        int takeNumber(int least, int most) {
+            if (kind != NUMBER || behind - begin > 3) {
+                return NONE;
+            }
+            int number = 0;
+            for (int i = begin; i < behind; i++) {
+                number = 10 * number + bytes[i] - '0';
+            }
+            if (number < least || number > most) {
+                return NONE;
+            }
+            advance();
+            return number;
+        }
+
+        int takeNumberAfter(String word, int least, int most) {
+            return takeWord(word) ? takeNumber(least, most) : NONE;
+        }
+
+        /** The letters that stand here, as bits; NONE, and nothing is taken, if they are none of so many. */
+        int takeLetters(int many) {
+            if (kind != WORD) {
+                return NONE;
+            }
+            int bits = 0;
+            for (int i = begin; i < behind; i++) {
+                int letter = bytes[i] - 'a';
+                if (letter < 0 || letter >= many || (bits >> letter & 1) != 0) {
+                    return NONE;
+                }
+                bits |= 1 << letter;
+            }
+            advance();
+            return bits;
         }
     }
 
@@ -1032,12 +1144,168 @@ public final class BlushCourt {
             length = other.length;
         }
 
-        void clear() {
+        /** Whether all could stand where it does; if not, the word that stands here is the first that could not. */
+        boolean read(Tape words) {
             lines = 0;
             length = 0;
+            words.open();
+            if (words.isEnd()) {
+                return true;
+            }
+            for (int line = 0; line < MOST_LAW_LINES; line++) {
+                if (!readLine(words)) {
+                    return false;
+                }
+                if (words.isEnd()) {
+                    return true;
+                }
+                if (!words.takeSign(';')) {
+                    return false;
+                }
+            }
+            return false;
         }
 
-        void begin(int lineKind, int lineAmount) {
+        private boolean readLine(Tape words) {
+            int kind = kindHere(words);
+            if (kind == NONE) {
+                return false;
+            }
+            words.advance();
+            int amount = words.takeNumber(0, TOP);
+            if (amount == NONE) {
+                return false;
+            }
+            begin(kind, amount);
+            return !words.takeWord("if") || readAny(words, 0);
+        }
+
+        private static int kindHere(Tape words) {
+            if (words.isWord("rise")) {
+                return RISE;
+            }
+            if (words.isWord("fall")) {
+                return FALL;
+            }
+            return words.isWord("pass") ? PASS : NONE;
+        }
+
+        private boolean readAny(Tape words, int depth) {
+            if (!readAll(words, depth)) {
+                return false;
+            }
+            for (int i = 0; i < MOST_BYTES && words.takeWord("or"); i++) {
+                if (!readAll(words, depth)) {
+                    return false;
+                }
+                addStep(OR);
+            }
+            return true;
+        }
+
+        private boolean readAll(Tape words, int depth) {
+            if (!readAtom(words, depth)) {
+                return false;
+            }
+            for (int i = 0; i < MOST_BYTES && words.takeWord("and"); i++) {
+                if (!readAtom(words, depth)) {
+                    return false;
+                }
+                addStep(AND);
+            }
+            return true;
+        }
+
+        private boolean readAtom(Tape words, int depth) {
+            if (words.isWord("not") || words.isSign('(')) {
+                return depth < DEEPEST && readDeeper(words, depth + 1);
+            }
+            int fact = words.isWord("touched") ? TOUCHED
+                    : words.isWord("red") ? IS_RED
+                    : words.isWord("edge") ? EDGE : NONE;
+            if (fact == NONE) {
+                return readCompare(words);
+            }
+            addStep(-1 - fact);
+            words.advance();
+            return true;
+        }
+
+        private boolean readDeeper(Tape words, int depth) {
+            if (words.takeSign('(')) {
+                return readAny(words, depth) && words.takeSign(')');
+            }
+            words.advance();
+            if (!readAtom(words, depth)) {
+                return false;
+            }
+            addStep(NOT);
+            return true;
+        }
+
+        private boolean readCompare(Tape words) {
+            if (!readSum(words)) {
+                return false;
+            }
+            int sign = words.isSign('<') ? BELOW : ABOVE;
+            if (!words.takeSign('<') && !words.takeSign('>')) {
+                return false;
+            }
+            if (!readSum(words)) {
+                return false;
+            }
+            addStep(sign);
+            return true;
+        }
+
+        private boolean readSum(Tape words) {
+            for (int i = 0; i < MOST_BYTES; i++) {
+                int fact = factHere(words);
+                int number = fact == NONE ? words.takeNumber(0, 999) : NONE;
+                if (fact != NONE) {
+                    words.advance();
+                    addStep(-1 - fact);
+                } else if (number != NONE) {
+                    addStep(number);
+                } else {
+                    return false;
+                }
+                if (i > 0) {
+                    addStep(ADD);
+                }
+                if (!words.takeSign('+')) {
+                    return true;
+                }
+            }
+            return false;
+        }
+
+        private static int factHere(Tape words) {
+            if (words.isWord("witness")) {
+                return WITNESS;
+            }
+            if (words.isWord("skin")) {
+                return SKIN;
+            }
+            if (words.isWord("shame")) {
+                return SHAME;
+            }
+            if (words.isWord("drink")) {
+                return DRINK;
+            }
+            if (words.isWord("shade")) {
+                return SHADE;
+            }
+            if (words.isWord("heat")) {
+                return HEAT;
+            }
+            if (words.isWord("weight")) {
+                return WEIGHT;
+            }
+            return words.isWord("place") ? PLACE : NONE;
+        }
+
+        private void begin(int lineKind, int lineAmount) {
             if (lines < 0 || lines >= MOST_LAW_LINES) {
                 return;
             }
@@ -1047,11 +1315,11 @@ public final class BlushCourt {
             lines++;
         }
 
-        void step(int step) {
+        private void addStep(int added) {
             if (length >= MOST_BYTES || lines < 1) {
                 return;
             }
-            code[length] = step;
+            code[length] = added;
             length++;
             end[lines - 1] = length;
         }
@@ -1104,20 +1372,18 @@ public final class BlushCourt {
                         return false;
                     }
                     top--;
-                    stack[top - 1] = join(step, stack[top - 1], stack[top]);
+                    int one = stack[top - 1];
+                    int other = stack[top];
+                    switch (step) {
+                        case ADD: stack[top - 1] = one + other; break;
+                        case BELOW: stack[top - 1] = one < other ? 1 : 0; break;
+                        case ABOVE: stack[top - 1] = one > other ? 1 : 0; break;
+                        case AND: stack[top - 1] = one & other; break;
+                        default: stack[top - 1] = one | other; break;
+                    }
                 }
             }
             return top == 0 || stack[0] != 0;
-        }
-
-        private static int join(int step, int one, int other) {
-            switch (step) {
-                case ADD: return one + other;
-                case BELOW: return one < other ? 1 : 0;
-                case ABOVE: return one > other ? 1 : 0;
-                case AND: return one & other;
-                default: return one | other;
-            }
         }
     }
 
@@ -1361,12 +1627,6 @@ public final class BlushCourt {
             return parts;
         }
 
-        private void weighAll(Court court) {
-            for (int q = 0; q < court.questions; q++) {
-                weigh(court, q);
-            }
-        }
-
         private int partedBy(int questions, int one, int other) {
             int bits = 0;
             for (int q = 0; q < questions; q++) {
@@ -1379,7 +1639,9 @@ public final class BlushCourt {
 
         /** Things in which two worlds differ that no question parts. */
         int hidden(Court court) {
-            weighAll(court);
+            for (int q = 0; q < court.questions; q++) {
+                weigh(court, q);
+            }
             int hidden = 0;
             for (int one = 0; one < court.worldCount(); one++) {
                 for (int other = one + 1; other < court.worldCount(); other++) {
@@ -1392,7 +1654,9 @@ public final class BlushCourt {
         }
 
         int knownBy(Court court, int thing) {
-            weighAll(court);
+            for (int q = 0; q < court.questions; q++) {
+                weigh(court, q);
+            }
             markUnparted(court, thing);
             int all = (1 << court.questions) - 1;
             int best = NONE;
@@ -1535,141 +1799,20 @@ public final class BlushCourt {
         }
     }
 
-    /** A text, word by word; the first wrong byte is the begin of what stood there when reading failed. */
-    private static final class Words {
-        private static final int END = 0;
-        private static final int WORD = 1;
-        private static final int NUMBER = 2;
-        private static final int SIGN = 3;
-
-        private Tape tape = null;
-        private int kind = END;
-        private int begin = 0;
-        private int behind = 0;
-
-        void open(Tape read) {
-            tape = read;
-            behind = 0;
-            advance();
-        }
-
-        private int size() {
-            return tape == null ? 0 : Math.min(tape.size, MOST_BYTES);
-        }
-
-        private int at(int i) {
-            return tape == null || i < 0 || i >= MOST_BYTES ? 0 : tape.bytes[i];
-        }
-
-        private static int kindOf(int sign) {
-            if (sign >= 'a' && sign <= 'z') {
-                return WORD;
-            }
-            return sign >= '0' && sign <= '9' ? NUMBER : SIGN;
-        }
-
-        void advance() {
-            int size = size();
-            begin = behind;
-            while (begin < size && at(begin) == ' ') {
-                begin++;
-            }
-            behind = begin;
-            if (begin >= size) {
-                kind = END;
-                return;
-            }
-            kind = kindOf(at(begin));
-            behind++;
-            while (kind != SIGN && behind < size && kindOf(at(behind)) == kind) {
-                behind++;
-            }
-        }
-
-        boolean isEnd() {
-            return kind == END;
-        }
-
-        boolean isSign(char sign) {
-            return kind == SIGN && at(begin) == sign;
-        }
-
-        boolean isWord(String word) {
-            if (kind != WORD || behind - begin != word.length()) {
-                return false;
-            }
-            for (int i = 0; i < word.length(); i++) {
-                if (at(begin + i) != word.charAt(i)) {
-                    return false;
-                }
-            }
-            return true;
-        }
-
-        boolean takeSign(char sign) {
-            if (!isSign(sign)) {
-                return false;
-            }
-            advance();
-            return true;
-        }
-
-        boolean takeWord(String word) {
-            if (!isWord(word)) {
-                return false;
-            }
-            advance();
-            return true;
-        }
-
-        /** The number that stands here; NONE, and nothing is taken, if it is none from least to most. */
-        int takeNumber(int least, int most) {
-            if (kind != NUMBER || behind - begin > 3) {
-                return NONE;
-            }
-            int number = 0;
-            for (int i = begin; i < behind; i++) {
-                number = 10 * number + at(i) - '0';
-            }
-            if (number < least || number > most) {
-                return NONE;
-            }
-            advance();
-            return number;
-        }
-
-        int takeNumberAfter(String word, int least, int most) {
-            return takeWord(word) ? takeNumber(least, most) : NONE;
-        }
-
-        /** The letters that stand here, as bits; NONE, and nothing is taken, if they are none of so many. */
-        int takeLetters(int many) {
-            if (kind != WORD) {
-                return NONE;
-            }
-            int bits = 0;
-            for (int i = begin; i < behind; i++) {
-                int letter = at(i) - 'a';
-                if (letter < 0 || letter >= many || (bits >> letter & 1) != 0) {
-                    return NONE;
-                }
-                bits |= 1 << letter;
-            }
-            advance();
-            return bits;
-        }
-    }
-
     /** Reads a text of the court; what reads a line answers false as soon as something cannot stand where it does. */
     private static final class CourtText {
-        private final Words words = new Words();
+        private final Tape words;
 
-        int read(Tape tape, Court court) {
-            words.open(tape);
-            return words.isEnd() || readLines(court) ? NONE : words.begin;
+        CourtText(Tape words) {
+            this.words = words;
         }
 
-        private boolean readLines(Court court) {
+        /** Whether all could stand where it does; if not, the word that stands here is the first that could not. */
+        boolean read(Court court) {
+            words.open();
+            if (words.isEnd()) {
+                return true;
+            }
             for (int line = 0; line < MOST_COURT_LINES; line++) {
                 if (!readLine(court)) {
                     return false;
@@ -1785,177 +1928,6 @@ public final class BlushCourt {
             court.sharp[court.women] = sharp;
             court.women++;
             return true;
-        }
-    }
-
-    /** Reads a law into steps; what reads a part answers false as soon as something cannot stand where it does. */
-    private static final class LawText {
-        private final Words words = new Words();
-
-        int read(Tape tape, Law law) {
-            law.clear();
-            words.open(tape);
-            return words.isEnd() || readLines(law) ? NONE : words.begin;
-        }
-
-        private boolean readLines(Law law) {
-            for (int line = 0; line < MOST_LAW_LINES; line++) {
-                if (!readLine(law)) {
-                    return false;
-                }
-                if (words.isEnd()) {
-                    return true;
-                }
-                if (!words.takeSign(';')) {
-                    return false;
-                }
-            }
-            return false;
-        }
-
-        private boolean readLine(Law law) {
-            int kind = kindHere();
-            if (kind == NONE) {
-                return false;
-            }
-            words.advance();
-            int amount = words.takeNumber(0, TOP);
-            if (amount == NONE) {
-                return false;
-            }
-            law.begin(kind, amount);
-            return !words.takeWord("if") || readAny(law, 0);
-        }
-
-        private int kindHere() {
-            if (words.isWord("rise")) {
-                return Law.RISE;
-            }
-            if (words.isWord("fall")) {
-                return Law.FALL;
-            }
-            return words.isWord("pass") ? Law.PASS : NONE;
-        }
-
-        private boolean readAny(Law law, int depth) {
-            if (!readAll(law, depth)) {
-                return false;
-            }
-            for (int i = 0; i < MOST_BYTES && words.takeWord("or"); i++) {
-                if (!readAll(law, depth)) {
-                    return false;
-                }
-                law.step(Law.OR);
-            }
-            return true;
-        }
-
-        private boolean readAll(Law law, int depth) {
-            if (!readAtom(law, depth)) {
-                return false;
-            }
-            for (int i = 0; i < MOST_BYTES && words.takeWord("and"); i++) {
-                if (!readAtom(law, depth)) {
-                    return false;
-                }
-                law.step(Law.AND);
-            }
-            return true;
-        }
-
-        private boolean readAtom(Law law, int depth) {
-            if (words.isWord("not") || words.isSign('(')) {
-                return depth < DEEPEST && readDeeper(law, depth + 1);
-            }
-            int fact = words.isWord("touched") ? Law.TOUCHED
-                    : words.isWord("red") ? Law.IS_RED
-                    : words.isWord("edge") ? Law.EDGE : NONE;
-            if (fact == NONE) {
-                return readCompare(law);
-            }
-            law.step(-1 - fact);
-            words.advance();
-            return true;
-        }
-
-        private boolean readDeeper(Law law, int depth) {
-            if (words.takeSign('(')) {
-                return readAny(law, depth) && words.takeSign(')');
-            }
-            words.advance();
-            if (!readAtom(law, depth)) {
-                return false;
-            }
-            law.step(Law.NOT);
-            return true;
-        }
-
-        private boolean readCompare(Law law) {
-            if (!readSum(law)) {
-                return false;
-            }
-            int step = words.isSign('<') ? Law.BELOW : Law.ABOVE;
-            if (!words.takeSign('<') && !words.takeSign('>')) {
-                return false;
-            }
-            if (!readSum(law)) {
-                return false;
-            }
-            law.step(step);
-            return true;
-        }
-
-        private boolean readSum(Law law) {
-            if (!readPart(law)) {
-                return false;
-            }
-            for (int i = 0; i < MOST_BYTES && words.takeSign('+'); i++) {
-                if (!readPart(law)) {
-                    return false;
-                }
-                law.step(Law.ADD);
-            }
-            return true;
-        }
-
-        private boolean readPart(Law law) {
-            int fact = factHere();
-            if (fact != NONE) {
-                law.step(-1 - fact);
-                words.advance();
-                return true;
-            }
-            int number = words.takeNumber(0, 999);
-            if (number == NONE) {
-                return false;
-            }
-            law.step(number);
-            return true;
-        }
-
-        private int factHere() {
-            if (words.isWord("witness")) {
-                return Law.WITNESS;
-            }
-            if (words.isWord("skin")) {
-                return Law.SKIN;
-            }
-            if (words.isWord("shame")) {
-                return Law.SHAME;
-            }
-            if (words.isWord("drink")) {
-                return Law.DRINK;
-            }
-            if (words.isWord("shade")) {
-                return Law.SHADE;
-            }
-            if (words.isWord("heat")) {
-                return Law.HEAT;
-            }
-            if (words.isWord("weight")) {
-                return Law.WEIGHT;
-            }
-            return words.isWord("place") ? Law.PLACE : NONE;
         }
     }
 }
