@@ -30,16 +30,14 @@ public final class BlushCourt {
     private static final int FALSELY = 2;
 
     private final Tape tape = new Tape();
-    private final Law ruling = new Law();
     private final Law draftLaw = new Law();
     private final Law keptLaw = new Law();
     private final Court now = new Court();
     private final Court scratch = new Court();
     private final Court kept = new Court();
     private final History history = new History();
-    private final CourtText courtText = new CourtText(tape);
-    private final Blush blush = new Blush(ruling);
-    private final Worlds worlds = new Worlds(blush);
+    private final Blush blush = new Blush();
+    private final Worlds worlds = new Worlds();
     private final Apart parting = new Apart();
     private final Couples pairing = new Couples();
     private int wrongByte = NONE;
@@ -70,7 +68,7 @@ public final class BlushCourt {
 
     public int court() throws IllegalArgumentException, UnsupportedOperationException {
         scratch.copy(now);
-        wrongByte = courtText.read(scratch) ? NONE : tape.begin;
+        wrongByte = CourtText.read(tape, scratch) ? NONE : tape.begin;
         tape.useUp();
         if (wrongByte != NONE) {
             throw new IllegalArgumentException("the text is wrong");
@@ -90,9 +88,9 @@ public final class BlushCourt {
         if (wrongByte != NONE) {
             throw new IllegalArgumentException("the text is wrong");
         }
-        ruling.copy(draftLaw);
+        blush.law.copy(draftLaw);
         history.forget();
-        return ruling.lines;
+        return blush.law.lines;
     }
 
     public int fault() {
@@ -123,7 +121,7 @@ public final class BlushCourt {
             case 1: return now.touches[thing];
             case 2: return now.so >> thing & 1;
             case 3: return now.leaning(thing);
-            case 4: return worlds.knownBy(now, thing);
+            case 4: return worlds.knownBy(blush, now, thing);
             default: throw new NoSuchElementException("nothing else is known of a thing");
         }
     }
@@ -317,7 +315,7 @@ public final class BlushCourt {
         int best = NONE;
         int least = 0;
         for (int q = 0; q < now.questions; q++) {
-            int greatest = worlds.greatestPart(now, q, fitting);
+            int greatest = worlds.greatestPart(blush, now, q, fitting);
             if (best == NONE || greatest < least) {
                 best = q;
                 least = greatest;
@@ -327,12 +325,12 @@ public final class BlushCourt {
     }
 
     public int dark() {
-        return worlds.hidden(now);
+        return worlds.hidden(blush, now);
     }
 
     public int tells(int question) throws IndexOutOfBoundsException {
         needQuestion(question);
-        return worlds.partsOf(now, question);
+        return worlds.partsOf(blush, now, question);
     }
 
     public int shared(int question) throws IndexOutOfBoundsException {
@@ -583,7 +581,7 @@ public final class BlushCourt {
 
     public void image() {
         kept.copy(now);
-        keptLaw.copy(ruling);
+        keptLaw.copy(blush.law);
         imaged = true;
     }
 
@@ -592,7 +590,7 @@ public final class BlushCourt {
             return false;
         }
         now.copy(kept);
-        ruling.copy(keptLaw);
+        blush.law.copy(keptLaw);
         history.forget();
         return true;
     }
@@ -604,7 +602,7 @@ public final class BlushCourt {
             case 2: return now.questions;
             case 3: return now.women;
             case 4: return now.texts;
-            case 5: return ruling.lines;
+            case 5: return blush.law.lines;
             case 6: return now.moment;
             case 7: return now.heat;
             case 8: return now.row.allShades();
@@ -673,7 +671,7 @@ public final class BlushCourt {
 
     private long fittingWorlds() {
         int rows = needRows(tape.useUp(), now.questions, now.row.count, 255);
-        return worlds.fitting(now, tape, rows);
+        return worlds.fitting(blush, now, tape, rows);
     }
 
     private int shareOf(int witness) {
@@ -1357,7 +1355,7 @@ public final class BlushCourt {
             for (int i = from; i < end[line]; i++) {
                 int step = code[i];
                 if (step > NOT) {
-                    if (top >= stack.length) {
+                    if (top >= stack.length || -1 - step >= FACTS) {
                         return false;
                     }
                     stack[top] = step >= 0 ? step : facts[-1 - step];
@@ -1389,15 +1387,11 @@ public final class BlushCourt {
 
     /** How shades rise and fall by the law. */
     private static final class Blush {
-        private final Law law;
+        private final Law law = new Law();
         private final int[] weight = new int[MOST_WITNESSES];
         private final int[] own = new int[MOST_WITNESSES];
         private final int[] passed = new int[MOST_WITNESSES];
         private final int[] risen = new int[MOST_WITNESSES];
-
-        Blush(Law law) {
-            this.law = law;
-        }
 
         int fallsBy(Court court, int witness) {
             return 10 - court.heat + law.sum(Law.FALL, court, witness, 0);
@@ -1527,18 +1521,13 @@ public final class BlushCourt {
 
     /** What would rise in all worlds; worlds that are alike to a question bear the number of the least of them. */
     private static final class Worlds {
-        private final Blush blush;
         private final int[] rise = new int[MOST_WORLDS * MOST_WITNESSES];
         private final int[] part = new int[MOST_QUESTIONS * MOST_WORLDS];
         private final int[] size = new int[MOST_WORLDS];
-        private final boolean[] unparted = new boolean[1 << MOST_QUESTIONS];
-
-        Worlds(Blush blush) {
-            this.blush = blush;
-        }
+        private final int[] unparted = new int[1 << MOST_QUESTIONS];
 
         /** Things that a question does not say change nothing by it: such a world takes over what a lesser one has. */
-        private void weigh(Court court, int question) {
+        private void weigh(Blush blush, Court court, int question) {
             int at = question * MOST_WORLDS;
             for (int world = 0; world < court.worldCount(); world++) {
                 int said = world & court.asks[question];
@@ -1572,7 +1561,7 @@ public final class BlushCourt {
         }
 
         /** The worlds in which all rows are so: the bit of each is its number. */
-        long fitting(Court court, Tape tape, int rows) {
+        long fitting(Blush blush, Court court, Tape tape, int rows) {
             int count = court.worldCount();
             long fitting = count >= MOST_WORLDS ? -1L : (1L << count) - 1;
             for (int q = 0; q < court.questions; q++) {
@@ -1582,7 +1571,7 @@ public final class BlushCourt {
                         continue;
                     }
                     if (!weighed) {
-                        weigh(court, q);
+                        weigh(blush, court, q);
                         weighed = true;
                     }
                     fitting &= fittingRow(count, tape.told(r, 1), tape.told(r, 2));
@@ -1602,8 +1591,8 @@ public final class BlushCourt {
             return fitting;
         }
 
-        int greatestPart(Court court, int question, long fitting) {
-            weigh(court, question);
+        int greatestPart(Blush blush, Court court, int question, long fitting) {
+            weigh(blush, court, question);
             Arrays.fill(size, 0);
             int greatest = 0;
             for (int world = 0; world < court.worldCount(); world++) {
@@ -1616,8 +1605,8 @@ public final class BlushCourt {
             return greatest;
         }
 
-        int partsOf(Court court, int question) {
-            weigh(court, question);
+        int partsOf(Blush blush, Court court, int question) {
+            weigh(blush, court, question);
             int parts = 0;
             for (int world = 0; world < court.worldCount(); world++) {
                 if (part[question * MOST_WORLDS + world] == world) {
@@ -1638,9 +1627,9 @@ public final class BlushCourt {
         }
 
         /** Things in which two worlds differ that no question parts. */
-        int hidden(Court court) {
+        int hidden(Blush blush, Court court) {
             for (int q = 0; q < court.questions; q++) {
-                weigh(court, q);
+                weigh(blush, court, q);
             }
             int hidden = 0;
             for (int one = 0; one < court.worldCount(); one++) {
@@ -1653,16 +1642,16 @@ public final class BlushCourt {
             return hidden;
         }
 
-        int knownBy(Court court, int thing) {
+        int knownBy(Blush blush, Court court, int thing) {
             for (int q = 0; q < court.questions; q++) {
-                weigh(court, q);
+                weigh(blush, court, q);
             }
             markUnparted(court, thing);
             int all = (1 << court.questions) - 1;
             int best = NONE;
             for (int asked = 0; asked <= all; asked++) {
                 boolean fewer = best == NONE || Integer.bitCount(asked) < Integer.bitCount(best);
-                if (fewer && !unparted[all & ~asked]) {
+                if (fewer && unparted[all & ~asked] == 0) {
                     best = asked;
                 }
             }
@@ -1671,18 +1660,18 @@ public final class BlushCourt {
 
         /** A set of questions is marked if two worlds, of which one has the thing so, are parted by some of these alone. */
         private void markUnparted(Court court, int thing) {
-            Arrays.fill(unparted, false);
+            Arrays.fill(unparted, 0);
             for (int one = 0; one < court.worldCount(); one++) {
                 for (int other = one + 1; other < court.worldCount(); other++) {
                     if (((one ^ other) >> thing & 1) != 0) {
-                        unparted[partedBy(court.questions, one, other)] = true;
+                        unparted[partedBy(court.questions, one, other)] = 1;
                     }
                 }
             }
             for (int q = 0; q < court.questions; q++) {
                 for (int set = 0; set < 1 << court.questions; set++) {
-                    if ((set >> q & 1) != 0 && unparted[set & ~(1 << q)]) {
-                        unparted[set] = true;
+                    if ((set >> q & 1) != 0 && unparted[set & ~(1 << q)] != 0) {
+                        unparted[set] = 1;
                     }
                 }
             }
@@ -1801,20 +1790,14 @@ public final class BlushCourt {
 
     /** Reads a text of the court; what reads a line answers false as soon as something cannot stand where it does. */
     private static final class CourtText {
-        private final Tape words;
-
-        CourtText(Tape words) {
-            this.words = words;
-        }
-
         /** Whether all could stand where it does; if not, the word that stands here is the first that could not. */
-        boolean read(Court court) {
+        static boolean read(Tape words, Court court) {
             words.open();
             if (words.isEnd()) {
                 return true;
             }
             for (int line = 0; line < MOST_COURT_LINES; line++) {
-                if (!readLine(court)) {
+                if (!readLine(words, court)) {
                     return false;
                 }
                 if (words.isEnd()) {
@@ -1827,23 +1810,23 @@ public final class BlushCourt {
             return false;
         }
 
-        private boolean readLine(Court court) {
+        private static boolean readLine(Tape words, Court court) {
             if (words.isWord("witness")) {
-                return court.row.count < MOST_WITNESSES && readWitness(court.row);
+                return court.row.count < MOST_WITNESSES && readWitness(words, court.row);
             }
             if (words.isWord("thing")) {
-                return court.things < MOST_THINGS && readThing(court);
+                return court.things < MOST_THINGS && readThing(words, court);
             }
             if (words.isWord("ask")) {
-                return court.questions < MOST_QUESTIONS && readQuestion(court);
+                return court.questions < MOST_QUESTIONS && readQuestion(words, court);
             }
             if (words.isWord("woman")) {
-                return court.women < MOST_WOMEN && readWoman(court);
+                return court.women < MOST_WOMEN && readWoman(words, court);
             }
-            return readNumber(court);
+            return readNumber(words, court);
         }
 
-        private boolean readNumber(Court court) {
+        private static boolean readNumber(Tape words, Court court) {
             if (words.isWord("heat")) {
                 court.heat = words.takeNumberAfter("heat", 0, 9);
                 return court.heat != NONE;
@@ -1863,7 +1846,7 @@ public final class BlushCourt {
             return false;
         }
 
-        private boolean readWitness(Row row) {
+        private static boolean readWitness(Tape words, Row row) {
             words.advance();
             int skin = words.takeNumberAfter("skin", 0, 9);
             int shame = skin == NONE ? NONE : words.takeNumberAfter("shame", 0, 9);
@@ -1889,7 +1872,7 @@ public final class BlushCourt {
             return true;
         }
 
-        private boolean readThing(Court court) {
+        private static boolean readThing(Tape words, Court court) {
             words.advance();
             int weight = words.takeNumberAfter("weight", 1, 9);
             if (weight == NONE) {
@@ -1908,7 +1891,7 @@ public final class BlushCourt {
             return true;
         }
 
-        private boolean readQuestion(Court court) {
+        private static boolean readQuestion(Tape words, Court court) {
             words.advance();
             int says = words.takeLetters(court.things);
             if (says == NONE) {
@@ -1919,7 +1902,7 @@ public final class BlushCourt {
             return true;
         }
 
-        private boolean readWoman(Court court) {
+        private static boolean readWoman(Tape words, Court court) {
             words.advance();
             int sharp = words.takeNumberAfter("sharp", 1, 20);
             if (sharp == NONE) {
