@@ -139,6 +139,10 @@ public final class BlushCourtPromises {
         is("feed beyond 400", x.feed(1, 2, 3, 4, 5), -1);
         is("end(401)", x.end(401), false);
         is("end(400)", x.end(400), true);
+        is("end(381)", x.end(381), true);
+        is("feed to 401", x.feed(1, 2, 3, 4, 5), -1);
+        is("end(380)", x.end(380), true);
+        is("feed to 400", x.feed(1, 2, 3, 4, 5), 400);
         is("end(6)", x.end(6), true);
         is("court", x.court(), 1);
         is("heat by the highest byte first", x.count(7), 5);
@@ -222,7 +226,7 @@ public final class BlushCourtPromises {
         is("ahead of any", x.fault(), -1);
         String[] courts = {"", "   ", "heat 5", " heat5 ;  heat  007 ", "heat^", "heat  ^", "heat ^x", "heat ^0005", "heat 1 ^2",
             "heat 5;^", "heat 5; ^", "^;", "heat 5;^;heat 5", "^Heat 5", "heat 5^heat 6", "^\theat 5", "heat ^-1",
-            "heat 9", "heat ^10", "false 100", "false ^101", "talk 100", "talk ^101", "moment 999", "moment ^1000", "^moments 1",
+            "heat 9", "heat ^10", "false 100", "false ^101", "talk 100", "talk ^101", "moment 0", "moment 999", "moment ^1000", "^moments 1",
             "witness^", "witness ^shame 1", "witness skin^", "witness skin 9 shame 9 drink 99 shade 99", "witness skin ^10 shame 1",
             "witness skin 1 shame ^10", "witness skin 1 shame 1 drink ^100", "witness skin 1 shame 1 shade ^100",
             "witness skin 1 shame 1 shade 5 ^drink 5", "witness skin 1 shame 1 ^skin 2", "witness skin 1 shame^",
@@ -630,6 +634,10 @@ public final class BlushCourtPromises {
         is("without women", told("witness skin 9 shame 9;thing weight 9 touches a so;ask a").vinegar(0, 0), 0);
         law(x, "rise 99 if drink > 2 and drink < 20");
         is("by the law", x.vinegar(0, 0), 20);
+        BlushCourt much = told("witness skin 9 shame 9;thing weight 9 touches a so;ask a;woman sharp 1", "rise 9");
+        is("the most vinegar", much.vinegar(0, 0), 99);
+        law(much, "rise 10");
+        is("more than there is", much.vinegar(0, 0), -1);
         promise = 39;
         BlushCourt y = told(ROW);
         is("betrays(0, 1)", y.betrays(0, 1), true);
@@ -647,6 +655,10 @@ public final class BlushCourtPromises {
         is("heats by the law", z.heats(), 5);
         law(z, "fall 8 if heat > 5");
         is("heats of some", z.heats(), 6);
+        law(z, "fall 50 if heat > 8");
+        is("the greatest heat", z.heats(), 9);
+        law(z, "fall 50 if heat > 9");
+        is("no greater heat", z.heats(), 0);
         is("heat stays", z.count(7), 3);
     }
 
@@ -764,6 +776,8 @@ public final class BlushCourtPromises {
         is("trial(3, false)", y.trial(3, false), 1);
         is("trial(2, false)", y.trial(2, false), 0);
         is("trial(0, true)", y.trial(0, true), 0);
+        BlushCourt red = told("witness skin 1 shame 1 shade 49;witness skin 1 shame 1 shade 50;witness skin 1 shame 1 shade 51");
+        is("red from 50 on", red.trial(0, false), 6);
         is("nothing stays", y.count(6) + y.count(8) + y.count(9) + y.count(10), 0);
         is("nor the seed", y.seed(1), 1);
         fails("trial(-1, true)", ARGUMENT, () -> y.trial(-1, true));
