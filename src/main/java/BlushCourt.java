@@ -817,7 +817,7 @@ public final class BlushCourt {
                 return;
             }
             kind = begin < size ? SIGN : END;
-            behind = Math.min(size, begin + 1);
+            behind = begin < size ? begin + 1 : begin;
         }
 
         boolean isEnd() {
