@@ -1221,11 +1221,22 @@ public final class BlushCourt {
             int fact = words.isWord("touched") ? TOUCHED
                     : words.isWord("red") ? IS_RED
                     : words.isWord("edge") ? EDGE : NONE;
-            if (fact == NONE) {
-                return readCompare(words);
+            if (fact != NONE) {
+                addStep(-1 - fact);
+                words.advance();
+                return true;
             }
-            addStep(-1 - fact);
-            words.advance();
+            if (!readSum(words)) {
+                return false;
+            }
+            int sign = words.isSign('<') ? BELOW : ABOVE;
+            if (!words.takeSign('<') && !words.takeSign('>')) {
+                return false;
+            }
+            if (!readSum(words)) {
+                return false;
+            }
+            addStep(sign);
             return true;
         }
 
@@ -1238,21 +1249,6 @@ public final class BlushCourt {
                 return false;
             }
             addStep(NOT);
-            return true;
-        }
-
-        private boolean readCompare(Tape words) {
-            if (!readSum(words)) {
-                return false;
-            }
-            int sign = words.isSign('<') ? BELOW : ABOVE;
-            if (!words.takeSign('<') && !words.takeSign('>')) {
-                return false;
-            }
-            if (!readSum(words)) {
-                return false;
-            }
-            addStep(sign);
             return true;
         }
 
