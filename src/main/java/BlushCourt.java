@@ -17,7 +17,7 @@ public final class BlushCourt {
     private static final int MOST_LOGGED = 60;
     private static final int MOST_ACTS = 12;
     private static final int MOST_AHEAD = 60;
-    private static final int MOST_TOLD = 45;
+    private static final int MOST_BYTES_TOLD = 45;
     private static final int MOST_ODDS = 5;
     private static final int LAST_MOMENT = 9999;
     private static final int TOP = 99;
@@ -659,7 +659,7 @@ public final class BlushCourt {
     /** How many rows of three are told; each of their three numbers must be one that can be. */
     private int needRows(int size, int firsts, int seconds, int most) {
         int rows = size / 3;
-        boolean right = size % 3 == 0 && rows <= MOST_TOLD;
+        boolean right = size % 3 == 0 && size <= MOST_BYTES_TOLD;
         for (int r = 0; r < rows && right; r++) {
             right = tape.told(r, 0) < firsts && tape.told(r, 1) < seconds && tape.told(r, 2) <= most;
         }

@@ -762,7 +762,7 @@ public final class BlushCourtAgainstModel {
 
         List<int[]> rows(int[] had, int a, int b, int most) {
             List<int[]> rows = new ArrayList<>();
-            if (had.length % 3 != 0 || had.length > 135) {
+            if (had.length % 3 != 0 || had.length > 45) {
                 throw new IllegalArgumentException();
             }
             for (int i = 0; i < had.length; i += 3) {
@@ -1498,7 +1498,7 @@ public final class BlushCourtAgainstModel {
             State s = model.s;
             boolean fits = r.nextBoolean();
             int firsts = fits ? s.questions.size() : s.women.size();
-            int n = r.nextInt(20) == 0 ? 44 + r.nextInt(3) : r.nextInt(r.nextBoolean() ? 3 : 7);
+            int n = r.nextInt(12) == 0 ? 14 + r.nextInt(3) : r.nextInt(60) == 0 ? 40 + r.nextInt(90) : r.nextInt(r.nextBoolean() ? 3 : 7);
             if (firsts == 0 || s.witnesses.isEmpty()) {
                 n = r.nextInt(2);
             }

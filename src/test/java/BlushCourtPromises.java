@@ -506,7 +506,8 @@ public final class BlushCourtPromises {
             feed(x, told[i]);
             is("next of " + i, x.next(), due[i][3]);
         }
-        int[][] bad = {{0}, {0, 0}, {0, 0, 1, 0}, {2, 0, 1}, {0, 1, 1}, {255, 0, 0}, rows(46, 0, 0, 1)};
+        int[][] bad = {{0}, {0, 0}, {0, 0, 1, 0}, {2, 0, 1}, {0, 1, 1}, {255, 0, 0}, rows(16, 0, 0, 1), rows(45, 0, 0, 1),
+            rows(133, 0, 0, 1)};
         for (int[] bytes : bad) {
             promise = 27;
             feed(x, bytes);
@@ -523,8 +524,18 @@ public final class BlushCourtPromises {
             fails("next", ARGUMENT, () -> x.next());
         }
         promise = 27;
-        feed(x, rows(45, 0, 0, 1));
-        is("fits of 45 rows", x.fits(), 4);
+        feed(x, rows(15, 0, 0, 1));
+        is("fits of 45 bytes", x.fits(), 4);
+        promise = 28;
+        feed(x, rows(15, 0, 0, 2));
+        is("sure of 45 bytes", x.sure(), 3);
+        promise = 29;
+        feed(x, rows(15, 0, 0, 0));
+        is("never of 45 bytes", x.never(), 3);
+        promise = 30;
+        feed(x, rows(15, 0, 0, 1));
+        is("next of 45 bytes", x.next(), 1);
+        promise = 27;
         is("the tape is used up", x.feed(0, 0, 0, 0, 0), 20);
         x.end(0);
         BlushCourt six = told("witness skin 1 shame 0;" + times(6, "thing weight 1 touches a") + ";ask abcdef");
@@ -600,7 +611,7 @@ public final class BlushCourtPromises {
             feed(x, told[i]);
             is("shades of " + i, x.shades(0), due[i][1]);
         }
-        int[][] bad = {{0}, {0, 0, 1, 0, 0}, {4, 0, 1}, {0, 2, 1}, {0, 0, 100}, rows(46, 0, 0, 10)};
+        int[][] bad = {{0}, {0, 0, 1, 0, 0}, {4, 0, 1}, {0, 2, 1}, {0, 0, 100}, rows(16, 0, 0, 10), rows(45, 0, 0, 10), rows(133, 0, 0, 10)};
         for (int[] bytes : bad) {
             promise = 36;
             feed(x, bytes);
@@ -615,8 +626,11 @@ public final class BlushCourtPromises {
             is("the tape is used up", x.feed(0, 0, 0, 0, 0), 20);
         }
         promise = 36;
-        feed(x, rows(45, 0, 0, 10));
-        is("wrong of 45 rows", x.wrong(), 0);
+        feed(x, rows(15, 0, 0, 10));
+        is("wrong of 45 bytes", x.wrong(), 0);
+        promise = 37;
+        feed(x, rows(15, 0, 0, 10));
+        is("shades of 45 bytes", x.shades(0), 10);
     }
 
     private static void hiding() {
