@@ -1,12 +1,5 @@
-import java.util.NoSuchElementException;
-
 /** Each promise of the document, by its number, with answers reckoned by hand. */
-public final class BlushCourtPromises {
-    private static final Class<?> INDEX = IndexOutOfBoundsException.class;
-    private static final Class<?> ARGUMENT = IllegalArgumentException.class;
-    private static final Class<?> ELEMENT = NoSuchElementException.class;
-    private static final Class<?> UNSUPPORTED = UnsupportedOperationException.class;
-
+public final class BlushCourtPromises extends CourtCheck {
     /** Question 0 raises by 13, 6, 0, 0; question 1 by 0, 6, 13, 6; question 2 by 13, 12, 13, 6. */
     private static final String ROW = "witness skin 2 shame 3;witness skin 1 shame 0 drink 4 shade 60;"
             + "witness skin 4 shame 5 shade 97;witness skin 2 shame 3;"
@@ -18,78 +11,6 @@ public final class BlushCourtPromises {
     /** One who rises by the weight of what is so of it. */
     private static final String SCALE = "witness skin 1 shame 0;thing weight 1 touches a;thing weight 1 touches a;"
             + "thing weight 2 touches a;ask ab;ask a";
-
-    private static int wrong = 0;
-    private static int checks = 0;
-    private static int promise = 0;
-
-    private interface Call {
-        void run();
-    }
-
-    private static void is(String what, long got, long due) {
-        checks++;
-        if (got != due) {
-            wrong++;
-            System.out.println("promise " + promise + ": " + what + " answered " + got + ", due is " + due);
-        }
-    }
-
-    private static void is(String what, boolean got, boolean due) {
-        is(what, got ? 1 : 0, due ? 1 : 0);
-    }
-
-    private static void fails(String what, Class<?> due, Call call) {
-        checks++;
-        String got = "nothing";
-        try {
-            call.run();
-        } catch (RuntimeException e) {
-            got = e.getClass().getSimpleName();
-        }
-        if (!got.equals(due.getSimpleName())) {
-            wrong++;
-            System.out.println("promise " + promise + ": " + what + " threw " + got + ", due is " + due.getSimpleName());
-        }
-    }
-
-    private static void feed(BlushCourt x, int... bytes) {
-        x.end(0);
-        for (int i = 0; i < bytes.length; i += 20) {
-            int[] five = new int[5];
-            for (int k = 0; k < 20; k++) {
-                five[k / 4] = five[k / 4] << 8 | (i + k < bytes.length ? bytes[i + k] : 0);
-            }
-            x.feed(five[0], five[1], five[2], five[3], five[4]);
-        }
-        x.end(bytes.length);
-    }
-
-    private static void feed(BlushCourt x, String text) {
-        feed(x, text.chars().toArray());
-    }
-
-    private static int court(BlushCourt x, String text) {
-        feed(x, text);
-        return x.court();
-    }
-
-    private static int law(BlushCourt x, String text) {
-        feed(x, text);
-        return x.law();
-    }
-
-    private static BlushCourt told(String text) {
-        BlushCourt x = new BlushCourt();
-        court(x, text);
-        return x;
-    }
-
-    private static BlushCourt told(String text, String law) {
-        BlushCourt x = told(text);
-        law(x, law);
-        return x;
-    }
 
     public static void main(String[] args) {
         texts();
@@ -110,10 +31,7 @@ public final class BlushCourtPromises {
         logging();
         undoing();
         imaging();
-        System.out.println(checks + " checks, " + wrong + " wrong");
-        if (wrong != 0) {
-            System.exit(1);
-        }
+        finish();
     }
 
     private static void texts() {
@@ -195,31 +113,6 @@ public final class BlushCourtPromises {
         is("falls", y.witness(0, 5), 7);
     }
 
-    /** A text in which ^ stands ahead of the first wrong byte; without it the text is right. */
-    private static void courtFault(String marked) {
-        BlushCourt x = new BlushCourt();
-        feed(x, marked.replace("^", ""));
-        int at = marked.indexOf('^');
-        if (at < 0) {
-            x.court();
-        } else {
-            fails(marked, ARGUMENT, () -> x.court());
-        }
-        is(marked, x.fault(), at);
-    }
-
-    private static void lawFault(String marked) {
-        BlushCourt x = new BlushCourt();
-        feed(x, marked.replace("^", ""));
-        int at = marked.indexOf('^');
-        if (at < 0) {
-            x.law();
-        } else {
-            fails(marked, ARGUMENT, () -> x.law());
-        }
-        is(marked, x.fault(), at);
-    }
-
     private static void faults() {
         promise = 6;
         BlushCourt x = new BlushCourt();
@@ -253,14 +146,6 @@ public final class BlushCourtPromises {
             lawFault(text);
         }
         faultsOfTooMany();
-    }
-
-    private static String times(int n, String line) {
-        StringBuilder b = new StringBuilder(line);
-        for (int i = 1; i < n; i++) {
-            b.append(';').append(line);
-        }
-        return b.toString();
     }
 
     private static void faultsOfTooMany() {
@@ -478,14 +363,6 @@ public final class BlushCourtPromises {
         is("palest", x.palest(), 0);
         is("palest of none", new BlushCourt().palest(), -1);
         is("palest", told("witness skin 1 shame 1 shade 5;witness skin 1 shame 1 shade 4").palest(), 1);
-    }
-
-    private static int[] rows(int n, int... row) {
-        int[] bytes = new int[3 * n];
-        for (int i = 0; i < bytes.length; i++) {
-            bytes[i] = row[i % 3];
-        }
-        return bytes;
     }
 
     private static void fitting() {
@@ -766,13 +643,6 @@ public final class BlushCourtPromises {
         }
     }
 
-    private static int drawn(int seed, int nth) {
-        for (int i = 0; i < nth; i++) {
-            seed = 1103515245 * seed + 12345;
-        }
-        return (seed >> 16) & 0x7fff;
-    }
-
     private static void trying() {
         promise = 50;
         BlushCourt x = told(ROW, "fall 20 if red");
@@ -863,41 +733,10 @@ public final class BlushCourtPromises {
         is("seed behind one draw", z.seed(0), 1103527590);
     }
 
-    private static long look(BlushCourt x) {
-        long sum = x.so();
-        for (int what = 0; what <= 9; what++) {
-            sum = sum * 31 + x.count(what);
-        }
-        for (int w = 0; w < x.count(0); w++) {
-            for (int what = 0; what < 9; what++) {
-                sum = sum * 31 + x.witness(w, what);
-            }
-        }
-        for (int q = 0; q < x.count(2); q++) {
-            sum = sum * 31 + x.asks(q);
-        }
-        return sum * 31 + x.trial(20, true) + x.log(0, 0) + 7 * x.log(0, 4);
-    }
-
     private static void undoing() {
         promise = 56;
         BlushCourt x = told(ROW);
-        court(x, "talk 40;false 40");
         is("undo of nothing", x.undo(), false);
-        Call[] acts = {() -> x.moments(9), () -> x.say(2), () -> x.change(0, 2), () -> x.drink(1, 5), () -> x.heat(7),
-            () -> x.tell(2, true), () -> x.tell(2, true), () -> x.words(0, 6), () -> x.powder(1)};
-        long[] before = new long[acts.length];
-        for (int i = 0; i < acts.length; i++) {
-            before[i] = look(x);
-            acts[i].run();
-        }
-        is("acts", x.count(10), acts.length);
-        for (int i = acts.length - 1; i >= 0; i--) {
-            is("undo", x.undo(), true);
-            is("all is as ahead of act " + i, look(x) == before[i], true);
-            is("acts", x.count(10), i);
-        }
-        is("undo of no more", x.undo(), false);
         for (int n = 1; n <= 15; n++) {
             x.drink(0, 1);
         }
@@ -946,7 +785,7 @@ public final class BlushCourtPromises {
         x.seed(55);
         promise = 57;
         x.image();
-        long seen = look(x);
+        String seen = scene(x);
         x.moments(9);
         x.tell(0, false);
         law(x, "fall 9;pass 3");
@@ -956,19 +795,21 @@ public final class BlushCourtPromises {
         x.feed(0, 0, 0, 0, 0);
         promise = 58;
         is("back", x.back(), true);
-        is("all is as it was", look(x) == seen, true);
+        same("all is as it was", scene(x), seen);
         is("but for fault", x.fault(), 5);
         is("but for the tape", x.end(20), true);
         is("the seed, too", x.seed(1), 55);
         x.say(0);
         is("back again", x.back(), true);
-        is("all is as it was", look(x) == seen, true);
-        x.say(0);
+        same("all is as it was", scene(x), seen);
         promise = 57;
-        x.image();
-        long later = look(x);
-        x.heat(9);
-        x.back();
-        is("one image alone", look(x) == later, true);
+        BlushCourt y = told(ROW);
+        y.image();
+        y.say(0);
+        y.image();
+        String later = scene(y);
+        y.heat(9);
+        y.back();
+        same("one image alone", scene(y), later);
     }
 }
