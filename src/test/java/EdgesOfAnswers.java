@@ -74,6 +74,8 @@ public final class EdgesOfAnswers extends CourtCheck {
         is("one who is touched, though it rises by another alone", x.gives(1), 0);
         is("next to one who passes 0", x.gives(2), 0);
         is("next to one who has 0", x.gives(3), 0);
+        is("by 1", told("witness skin 0 shame 2;witness skin 0 shame 0;thing weight 1 touches a so;ask a").gives(0), 2);
+        is("by 0", told("witness skin 0 shame 1;witness skin 0 shame 0;thing weight 1 touches a so;ask a").gives(0), 0);
         is("alone", told(ONE + ";thing weight 1 touches a so;ask a").gives(0), 0);
         is("all but the one between", told(times(3, "witness skin 0 shame 9") + ";thing weight 1 touches b so;ask a").gives(0), 5);
     }
@@ -85,7 +87,12 @@ public final class EdgesOfAnswers extends CourtCheck {
             is("shade " + d[0], told(ONE + ";witness skin 1 shame 0 shade " + d[0] + ";heat 9").pale(), d[1]);
         }
         is("without witnesses", new BlushCourt().pale(), 0);
-        is("all of them", told(ONE + " shade 14;witness skin 1 shame 0 shade 8;witness skin 1 shame 0 shade 15").pale(), 3);
+        BlushCourt x = told(ONE + " shade 14;witness skin 1 shame 0 shade 8;witness skin 1 shame 0 shade 15");
+        is("all of them", x.pale(), 3);
+        x.powder(2);
+        is("from now", x.pale(), 2);
+        x.heat(8);
+        is("by the heat as it is now", x.pale(), 7);
     }
 
     private static void reddest() {
@@ -166,6 +173,7 @@ public final class EdgesOfAnswers extends CourtCheck {
         is("none", sureOf(y), 0);
         is("one", sureOf(y, 1, 0, 1), 1);
         is("all", sureOf(y, 0, 0, 6), 63);
+        is("none, as nothing is so in the one world", sureOf(y, 0, 0, 0), 0);
         is("without a world", sureOf(y, 0, 0, 7), 0);
         holds(29, "NEVER: THINGS that are SO in none of them, as bits (all without)");
         is("none", neverOf(y), 0);
@@ -192,6 +200,8 @@ public final class EdgesOfAnswers extends CourtCheck {
         BlushCourt all = told("witness skin 0 shame 9;witness skin 0 shame 1;thing weight 1 touches a;thing weight 1 touches b;ask a;ask ab", "");
         is("by what all witnesses rise", nextOf(all), 1);
         is("those that fit alone", nextOf(all, 1, 1, 1), 0);
+        BlushCourt three = told(ONE + ";witness skin 1 shame 0 drink 2;thing weight 1 touches ab;thing weight 2 touches ab;ask b;ask ab", "");
+        is("the world of nothing counts, too: parts of 2 and of 1", nextOf(three, 1, 1, 0), 1);
     }
 
     /** Whether these calls, told these bytes, are refused with the tape used up, or answer. */
@@ -303,6 +313,8 @@ public final class EdgesOfAnswers extends CourtCheck {
         is("without questions all", told(ONE + ";" + times(6, "thing weight 1 touches a")).dark(), 63);
         is("none", told(ONE + ";thing weight 1 touches a;thing weight 2 touches a;ask ab").dark(), 0);
         is("two that weigh alike", told(ONE + ";thing weight 1 touches a;thing weight 1 touches a;thing weight 3 touches a;ask ab;ask c").dark(), 3);
+        is("three at a time, four in all", told(ONE + ";thing weight 1 touches a;thing weight 1 touches a;thing weight 5 touches a;"
+                + "thing weight 6 touches a;ask abcd").dark(), 15);
         is("one that touches nobody", told(ONE + ";thing weight 1 touches a;thing weight 1;ask ab").dark(), 2);
         is("without witnesses", told("thing weight 1;ask a").dark(), 1);
         is("who does not rise", told("witness skin 1 shame 0 drink 1;thing weight 1 touches a;ask a").dark(), 1);
@@ -318,6 +330,11 @@ public final class EdgesOfAnswers extends CourtCheck {
         is("eight", x.tells(3), 8);
         is("one, if nobody rises", told("thing weight 1;ask a").tells(0), 1);
         is("those that weigh alike are one part", told(ONE + ";" + times(6, "thing weight 1 touches a") + ";ask abcdef", "").tells(0), 7);
+        BlushCourt five = told(times(5, ONE) + ";thing weight 1 touches a;thing weight 1 touches b;thing weight 1 touches c;thing weight 1 touches d;"
+                + "thing weight 1 touches e;thing weight 2 touches e;ask abcdef;ask abcde;ask ef", "");
+        is("all 64 by five", five.tells(0), 64);
+        is("32 by five", five.tells(1), 32);
+        is("four by the last one", five.tells(2), 4);
         BlushCourt y = told(ONE + ";thing weight 1 touches a so;ask a");
         is("in any world, so or not", y.tells(0), 2);
         is("above 99 not cut", told("witness skin 9 shame 0 shade 99;thing weight 9 touches a;thing weight 8 touches a;ask ab", "rise 99").tells(0), 4);
@@ -464,6 +481,11 @@ public final class EdgesOfAnswers extends CourtCheck {
         BlushCourt x = told(one);
         x.vinegar(0, 0);
         is("drink stays", x.witness(0, 2), 5);
+        law(x, "rise 20 if heat > 5");
+        x.heat(6);
+        is("by all else as it is now", x.vinegar(0, 0), NONE);
+        x.say(0);
+        is("by its shade as it is now", x.vinegar(0, 0), 0);
     }
 
     private static void foundOut() {
@@ -505,12 +527,18 @@ public final class EdgesOfAnswers extends CourtCheck {
         is("11 never falls to 0", told(ONE + " shade 11").heats(), 0);
         is("9 alone", told(ONE + " shade 60", "fall 59 if heat > 8").heats(), 9);
         is("one too few", told(ONE + " shade 61", "fall 59 if heat > 8").heats(), 0);
+        is("10 is no heat", told(ONE + " shade 60", "fall 60 if heat > 9").heats(), 0);
         is("8 of 8 and 9", told(ONE + " shade 60", "fall 59 if heat > 7").heats(), 8);
         is("most count, the pale too", told(ONE + ";" + ONE + " shade 9;" + ONE + " shade 40", "fall 40 if heat > 4 and shade > 30").heats(), 0);
         is("one more of them", told(ONE + ";" + ONE + " shade 5;" + ONE + " shade 40", "fall 40 if heat > 4 and shade > 30").heats(), 5);
         BlushCourt x = told(ONE + " shade 60;heat 7", "fall 59 if heat > 8");
         x.heats();
         is("heat stays", x.count(7), 7);
+        x.moments(1);
+        is("by shades as they are now", x.heats(), 9);
+        x.moments(1);
+        x.powder(0);
+        is("by shades as they are now", x.heats(), 0);
     }
 
     private static void couplesAre(String text, int... due) {
@@ -539,6 +567,13 @@ public final class EdgesOfAnswers extends CourtCheck {
         couplesAre(three + ";woman sharp 2;woman sharp 20;woman sharp 2;woman sharp 20", 6, 1, 0, 3, 2);
         couplesAre(three + ";woman sharp 2;woman sharp 2;woman sharp 2;woman sharp 20", 3, NONE, NONE, 3, 2);
         couplesAre(three + ";woman sharp 2;woman sharp 2;woman sharp 2;woman sharp 2", 0, NONE, NONE, NONE, NONE);
+        BlushCourt x = told(three + ";woman sharp 2;woman sharp 20");
+        is("three", x.couples(NONE), 3);
+        for (int w = 0; w < 3; w++) {
+            x.powder(w);
+            is("by shades as they are now", x.couples(NONE), 2 - w);
+        }
+        is("nobody any more", x.couples(0), NONE);
         couplesAre(times(5, ONE + " shade 99") + ";woman sharp 1;woman sharp 2;woman sharp 10;woman sharp 20", 10, 1, 0, 3, 2);
     }
 
@@ -579,6 +614,8 @@ public final class EdgesOfAnswers extends CourtCheck {
         is("all", z.so(), 63);
         z.tell(0, false);
         is("all but the first", z.so(), 62);
+        z.tell(5, false);
+        is("nor the last", z.so(), 30);
         is("none", new BlushCourt().so(), 0);
     }
 
@@ -653,6 +690,8 @@ public final class EdgesOfAnswers extends CourtCheck {
         is("without witnesses", told("thing weight 1 so;ask a;woman sharp 1").blind(), 1);
         String nine = "witness skin 0 shame 9;thing weight 1;thing weight 1 touches a so;ask a;ask b;";
         is("nine are read by 9, not by 10", told(nine + "woman sharp 10;woman sharp 9;woman sharp 20;woman sharp 1").blind(), 5);
+        is("the first one sees", told(nine + "woman sharp 9;woman sharp 10").blind(), 2);
+        is("by the first question alone", told("witness skin 0 shame 9;thing weight 1 touches a so;thing weight 1;ask a;ask b;woman sharp 9").blind(), 0);
         is("not so", told("witness skin 0 shame 9;thing weight 1 touches a;ask a;woman sharp 1").blind(), 1);
     }
 

@@ -42,10 +42,14 @@ public final class EdgesOfMoments extends CourtCheck {
         is("touched", x.rises(1, 0), 52);
         is("not touched", x.rises(2, 0), 0);
         is("nothing is said", x.witness(0, 5), 7 + 5);
+        law(x, "fall 5 if weight + 1 > 0;fall 2 if not touched");
+        is("nothing is said: 0 and no less", x.witness(0, 5), 7 + 7);
         law(x, "rise 50 if weight > 1;rise 30 if weight < 3");
         is("weight as a part", x.rises(1, 0), 82);
         law(x, "rise 50 if weight > 2;rise 30 if weight < 2");
         is("weight as a part, neither above nor below", x.rises(1, 0), 2);
+        BlushCourt one = told(TEN + TOUCHED_A, "rise 5 if touched;rise 9 if not touched");
+        is("touched by a weight of 1", one.rises(0, 0), 15);
     }
 
     /** Whether a condition holds of the middle one of three: a red one touched by a weight of 4, and the heat is 6. */
@@ -141,6 +145,8 @@ public final class EdgesOfMoments extends CourtCheck {
         holds(20, "PASSES: the sum of N of all pass LINES that hold (without a text 50; 99 at most), in hundredths");
         String hundred = "witness skin 9 shame 9;witness skin 1 shame 1;thing weight 9 touches a so;ask a";
         is("without a text", told(hundred).rises(0, 1), 45);
+        String more = "witness skin 9 shame 9;witness skin 1 shame 1;thing weight 9 touches a so;thing weight 9 touches a so;ask ab";
+        is("without a text 50 of 171", told(more).rises(0, 1), 85);
         String[] laws = {"rise 10", "rise 10;pass 0", "rise 10;pass 98", "rise 10;pass 99", "rise 10;pass 98;pass 1", "rise 10;pass 99;pass 1",
             "rise 10;pass 99;pass 99", "rise 10;pass 40 if edge;pass 30 if red;pass 20 if touched"};
         int[] due = {0, 0, 98, 99, 99, 99, 99, 60};

@@ -303,6 +303,25 @@ public final class EdgesOfRefusals extends CourtCheck {
         is("between(4, 3)", x.between(4, 3), 0);
         is("rests(4, 7)", x.rests(4, 7), 0);
         is("ahead(4, 60)", x.ahead(4, 60), 0);
+        is("alone", x.alone(), 1);
+        is("blind", x.blind(), 0);
+        is("dark", x.dark(), 62);
+        is("fits", x.fits(), 64);
+        is("sure", x.sure(), 0);
+        is("never", x.never(), 0);
+        is("next", x.next(), 0);
+        is("wrong", x.wrong(), 0);
+        is("heats", x.heats(), 0);
+        is("pale", x.pale(), 0);
+        is("reddest", x.reddest(), 0);
+        is("palest", x.palest(), 0);
+        is("twins", x.twins(), 10);
+        is("weightiest", x.weightiest(), 0);
+        is("so", x.so(), 63);
+        is("trial(60, false)", x.trial(60, false), 0);
+        is("trial(60, true)", x.trial(60, true), 0);
+        is("span(60, true)", x.span(60, true), 0);
+        is("couples(NONE)", x.couples(NONE), 0);
         is("say(7)", x.say(7), 31);
         is("led(4, false)", x.led(4, false), 1);
         is("change(4, 3)", x.change(4, 3), 3);
@@ -310,6 +329,17 @@ public final class EdgesOfRefusals extends CourtCheck {
         is("tell(5, true)", x.tell(5, true), false);
         is("words(7, 32)", x.words(7, 32), 1);
         is("powder(4)", x.powder(4), 15);
+        BlushCourt red = full();
+        for (int i = 0; i < 12; i++) {
+            red.say(i % 8);
+        }
+        is("as red as can be", red.count(8), 5 * 99);
+        is("who is red", red.trial(0, false), 31);
+        is("found out no more", red.witness(4, 8), 0);
+        is("all are blind", red.blind(), 15);
+        is("vinegar(4, 7) of the reddest", red.vinegar(4, 7), 0);
+        is("pale", red.pale(), 15);
+        is("moments(60)", red.moments(60), 0);
         fails("witness(5, 0)", INDEX, () -> x.witness(5, 0));
         fails("thing(6, 0)", INDEX, () -> x.thing(6, 0));
         fails("asks(8)", INDEX, () -> x.asks(8));

@@ -1,3 +1,6 @@
+import java.util.regex.Matcher;
+import java.util.regex.Pattern;
+
 /** The edges of the terms: how many there may be of each, the bounds of its numbers, and the texts of the court and of the law. */
 public final class EdgesOfTexts extends CourtCheck {
     private static final String WITNESS = "witness skin 1 shame 1";
@@ -235,6 +238,10 @@ public final class EdgesOfTexts extends CourtCheck {
         is("lines of it", y.count(5), 12);
         is("one", law(y, "fall 5"), 1);
         is("in place of the one before", y.witness(0, 5), 7 + 5);
+        law(y, "fall 5 if red;fall 6 if red and not red");
+        is("lines that do not hold", y.witness(0, 5), 7);
+        law(y, "fall 5;fall 6");
+        is("lines without if, behind lines with it", y.witness(0, 5), 7 + 11);
         is("none", law(y, ""), 0);
         is("in place of the one before", y.witness(0, 5), 7);
     }
@@ -354,7 +361,10 @@ public final class EdgesOfTexts extends CourtCheck {
         is("asks", x.asks(0), 1);
         is("sharp", x.sharp(0), 6);
         is("heat", x.count(7), 7);
+        otherLetters();
         courtFault("^heatx 5");
+        courtFault("^heatz 5");
+        courtFault("^heata 5");
         courtFault("^xheat 5");
         courtFault("^hea t 5");
         courtFault("heat 1 ^2");
@@ -387,6 +397,38 @@ public final class EdgesOfTexts extends CourtCheck {
         lawFault("rise 5 if heat < ^=3");
         lawFault("rise 5 if heat <^< 3");
         lawFault("rise 5 if heat +^+ 3 < 4");
+    }
+
+    /** Every word with one letter changed, dropped or doubled is none. */
+    private static void otherLetters() {
+        String court = "witness skin 1 shame 1 drink 1 shade 1;thing weight 1 touches a so;ask a;woman sharp 1;heat 1;false 1;talk 1;moment 1";
+        courtFault(court);
+        spoil(court, "witness skin shame drink shade thing weight touches so ask woman sharp heat false talk moment", true);
+        String law = "rise 1 if witness<1 and skin<1 or shame<1;fall 1 if not drink<1 and shade<1 or heat<1;"
+                + "pass 1 if weight<1 or place<1 or touched or red or edge";
+        lawFault(law);
+        spoil(law, "rise if witness and skin or shame fall not drink shade heat pass weight place touched red edge", false);
+    }
+
+    private static void spoil(String text, String words, boolean ofCourt) {
+        for (String word : words.split(" ")) {
+            Matcher found = Pattern.compile("\\b" + word + "\\b").matcher(text);
+            is(word + " stands in the text", found.find(), true);
+            int at = found.start();
+            for (int i = 0; i < word.length(); i++) {
+                char other = word.charAt(i) == 'q' ? 'x' : 'q';
+                String[] spoiled = {word.substring(0, i) + other + word.substring(i + 1), word.substring(0, i) + word.substring(i + 1),
+                    word.substring(0, i) + word.charAt(i) + word.substring(i)};
+                for (String bad : spoiled) {
+                    String marked = text.substring(0, at) + "^" + bad + text.substring(at + word.length());
+                    if (ofCourt) {
+                        courtFault(marked);
+                    } else {
+                        lawFault(marked);
+                    }
+                }
+            }
+        }
     }
 
     private static void emptyTexts() {
