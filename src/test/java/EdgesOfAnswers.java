@@ -88,6 +88,7 @@ public final class EdgesOfAnswers extends CourtCheck {
         }
         is("without witnesses", new BlushCourt().pale(), 0);
         BlushCourt x = told(ONE + " shade 14;witness skin 1 shame 0 shade 8;witness skin 1 shame 0 shade 15");
+        holds(24, "PALE (0, if so now); NONE");
         is("all of them", x.pale(), 3);
         x.powder(2);
         is("from now", x.pale(), 2);
@@ -329,7 +330,10 @@ public final class EdgesOfAnswers extends CourtCheck {
         is("four", x.tells(2), 4);
         is("eight", x.tells(3), 8);
         is("one, if nobody rises", told("thing weight 1;ask a").tells(0), 1);
-        is("those that weigh alike are one part", told(ONE + ";" + times(6, "thing weight 1 touches a") + ";ask abcdef", "").tells(0), 7);
+        for (int many = 1; many <= 5; many++) {
+            is("those that weigh alike are one part to " + many, told(times(many, ONE) + ";" + times(6, "thing weight 1 touches a") + ";ask abcdef", "")
+                    .tells(0), 7);
+        }
         BlushCourt five = told(times(5, ONE) + ";thing weight 1 touches a;thing weight 1 touches b;thing weight 1 touches c;thing weight 1 touches d;"
                 + "thing weight 1 touches e;thing weight 2 touches e;ask abcdef;ask abcde;ask ef", "");
         is("all 64 by five", five.tells(0), 64);
@@ -639,6 +643,7 @@ public final class EdgesOfAnswers extends CourtCheck {
         is("rises 5, shame 0: telling", rest(0, 0, 2, 5, 0), 1);
         is("drunk: rises 0", rest(1, 1, 2, 0, 99), 4);
         BlushCourt x = told("witness skin 0 shame 9;witness skin 0 shame 0;thing weight 9 touches b;thing weight 9 touches a so;ask a;ask b");
+        holds(44, "choices (2 times its and the court's) from which neither would have more by its other one: as bits");
         is("not touched by what is said: weight 0", x.rests(1, 0), 1);
         is("not touched, though it rises by 4", x.rests(1, 1), 1);
         x.tell(0, true);

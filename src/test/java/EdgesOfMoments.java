@@ -61,6 +61,7 @@ public final class EdgesOfMoments extends CourtCheck {
 
     private static void conditions() {
         holds(5, "C: ALL { or ALL }; ALL: ATOM { and ATOM }; ATOM: not ATOM | ( C ) | touched | red | edge | SUM < SUM | SUM > SUM");
+        sums();
         String[] right = {"red", "not edge", "not not red", "(red)", "red or edge", "edge or red", "edge or edge or red", "red and red and red",
             "red or edge and edge", "edge and edge or red", "not edge and red", "not (edge and red)", "not (edge) and red",
             "(red or edge) and red", "red and (edge or red)", "not edge or edge", "not not not not not not red", "((((((red))))))",
@@ -77,6 +78,22 @@ public final class EdgesOfMoments extends CourtCheck {
         for (String condition : not) {
             is(condition, holds(condition), false);
         }
+    }
+
+    /** Sums as long as a text can be, of numbers and of what is told of one. */
+    private static void sums() {
+        String fifty = "+skin".repeat(50).substring(1);
+        is("fifty times 3 are below 151", holds(fifty + "<151"), true);
+        is("and not below 150", holds(fifty + "<150"), false);
+        String ones = "+1".repeat(150).substring(1);
+        is("a hundred and fifty times 1", holds("151>" + ones), true);
+        is("a hundred and fifty times 1", holds("150>" + ones), false);
+        String reds = "red and ".repeat(40);
+        is("forty atoms and one more", holds(reds + "red"), true);
+        is("forty atoms and one that does not hold", holds(reds + "edge"), false);
+        String edges = "edge or ".repeat(40);
+        is("forty atoms or one more", holds(edges + "red"), true);
+        is("forty atoms or one that does not hold", holds(edges + "edge"), false);
     }
 
     private static void facts() {
@@ -515,6 +532,7 @@ public final class EdgesOfMoments extends CourtCheck {
                 fails("log(" + ago + ", " + what + ")", ELEMENT, () -> y.log(ago, what));
             }
         }
+        holds(54, "MOMENT, the WITNESS, 0 to 2, the QUESTION (none of 2), by how much (RISES, not cut; 20 of 2)");
         BlushCourt z = told("witness skin 9 shame 9 shade 99;witness skin 9 shame 9;thing weight 9 touches a so;ask a", times(11, "rise 99") + ";pass 99");
         z.say(0);
         is("RISES, not cut", z.log(1, 4), 90 + 11 * 99);

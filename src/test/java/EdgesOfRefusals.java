@@ -52,6 +52,7 @@ public final class EdgesOfRefusals extends CourtCheck {
         ofNone();
         ofAFullCourt();
         thirteenthText();
+        lastCall();
         finish();
     }
 
@@ -349,6 +350,15 @@ public final class EdgesOfRefusals extends CourtCheck {
         fails("tell(6, true)", INDEX, () -> x.tell(6, true));
         fails("words(8, 1)", INDEX, () -> x.words(8, 1));
         fails("words(7, 64)", ARGUMENT, () -> x.words(7, 64));
+    }
+
+    private static void lastCall() {
+        holds(0, "An object is used for at most 512 calls after it has been made");
+        BlushCourt x = new BlushCourt();
+        for (int call = 1; call < 512; call++) {
+            is("call " + call, x.heat(call % 10), call == 1 ? 3 : (call - 1) % 10);
+        }
+        is("call 512", x.count(10), 12);
     }
 
     private static void thirteenthText() {

@@ -161,7 +161,12 @@ public final class EdgesOfTexts extends CourtCheck {
         is("four of them still", x.count(3), 4);
         courtFault(times(4, WOMAN));
         courtFault(times(4, WOMAN) + ";^" + WOMAN);
+        holds(10, "SHARP of a woman");
         bounds("woman sharp #", 1, 20, y -> y.sharp(0));
+        bounds("woman sharp 3;woman sharp #", 1, 20, y -> y.sharp(1));
+        fails("sharp(4)", INDEX, () -> x.sharp(4));
+        fails("sharp(-1)", INDEX, () -> x.sharp(-1));
+        fails("sharp(0) of none", INDEX, () -> new BlushCourt().sharp(0));
     }
 
     /** How many of a hundred draws, one of each number modulo 100, are below TALK: a question is said by so many. */
@@ -475,6 +480,13 @@ public final class EdgesOfTexts extends CourtCheck {
         courtFault("witness ^skim 1 shame 1");
         lawFault("^tax 5");
         lawFault("rise 5 if ^blue");
+        holds(5, "( and not within one another at most 6 deep");
+        BlushCourt deep = told(WITNESS + " shade 50", "fall 5 if not(not(not(red)))");
+        is("six deep, it does not hold", deep.witness(0, 5), 7);
+        law(deep, "fall 5 if not not not not not not red");
+        is("six deep, it holds", deep.witness(0, 5), 12);
+        law(deep, "fall 5 if ((((((red))))))");
+        is("six deep, it holds", deep.witness(0, 5), 12);
         holds(6, "the ( or not that is a 7th one deep");
         lawFault("rise 5 if ((((((red))))))");
         lawFault("rise 5 if ((((((^(red)))))))");
