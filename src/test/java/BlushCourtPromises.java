@@ -31,11 +31,12 @@ public final class BlushCourtPromises extends CourtCheck {
         logging();
         undoing();
         imaging();
+        needEachPromise();
         finish();
     }
 
     private static void texts() {
-        promise = 1;
+        holds(1, "A court without WITNESSES");
         BlushCourt x = new BlushCourt();
         int[] due = {0, 0, 0, 0, 0, -1, 0, 3, 0, 0, 0};
         for (int what = 0; what < due.length; what++) {
@@ -50,7 +51,8 @@ public final class BlushCourtPromises extends CourtCheck {
         is("dark", x.dark(), 0);
         is("NONE", BlushCourt.NONE, -1);
 
-        promise = 2;
+        holds(2, "Twenty bytes come behind the TAPE, of each number the highest first: how many it has; NONE, and none come, if it would "
+                + "have more than 400");
         for (int n = 20; n <= 400; n += 20) {
             is("feed", x.feed(0x68656174, 0x20352020, 0x20202020, 0x20202020, 0x20202020), n);
         }
@@ -65,7 +67,7 @@ public final class BlushCourtPromises extends CourtCheck {
         is("court", x.court(), 1);
         is("heat by the highest byte first", x.count(7), 5);
 
-        promise = 3;
+        holds(3, "The TAPE has its first n bytes alone: true; false, and nothing happens, if it has fewer, or n is below 0");
         x.feed(0, 0, 0, 0, 0);
         is("end(-1)", x.end(-1), false);
         is("end(21)", x.end(21), false);
@@ -76,7 +78,8 @@ public final class BlushCourtPromises extends CourtCheck {
         is("end(0)", x.end(0), true);
         is("feed behind 0", x.feed(0, 0, 0, 0, 0), 20);
 
-        promise = 4;
+        holds(4, "Uses the TAPE up: a text of THE COURT: how many there are. IllegalArgumentException: it is wrong; "
+                + "UnsupportedOperationException: there are 12");
         BlushCourt y = told("witness skin 1 shame 2");
         is("a text behind another", court(y, "witness skin 3 shame 4;thing weight 1 touches ab"), 2);
         is("both are there", y.witness(1, 0), 3);
@@ -98,7 +101,7 @@ public final class BlushCourtPromises extends CourtCheck {
         fails("a wrong 13th text", ARGUMENT, () -> y.court());
         is("fault", y.fault(), 5);
 
-        promise = 5;
+        holds(5, "Uses the TAPE up: THE LAW: how many LINES. IllegalArgumentException: the text is wrong");
         is("law", law(y, "rise 5;fall 3 if edge"), 2);
         is("lines", y.count(5), 2);
         is("falls", y.witness(0, 5), 10);
@@ -114,7 +117,7 @@ public final class BlushCourtPromises extends CourtCheck {
     }
 
     private static void faults() {
-        promise = 6;
+        holds(6, "The first wrong byte of the latest text that was read; NONE without one, and ahead of any");
         BlushCourt x = new BlushCourt();
         is("ahead of any", x.fault(), -1);
         String[] courts = {"", "   ", "heat 5", " heat5 ;  heat  007 ", "heat^", "heat  ^", "heat ^x", "heat ^0005", "heat 1 ^2",
@@ -176,7 +179,7 @@ public final class BlushCourtPromises extends CourtCheck {
     }
 
     private static void conditions() {
-        promise = 20;
+        holds(20, "RISES");
         String[] right = {"touched", "red", "not edge", "witness+0<2 and witness>0", "skin>2 and skin<4", "shame>4 and shame<6",
             "drink>6 and drink<8", "shade>49 and shade<51", "heat>5 and heat<7", "weight>3 and weight<5", "place>0 and place<2",
             "skin+shame+drink<16 and skin+shame+drink>14", "edge or red", "edge and edge or red", "red or edge and edge",
@@ -209,7 +212,8 @@ public final class BlushCourtPromises extends CourtCheck {
     }
 
     private static void tellings() {
-        promise = 7;
+        holds(7, "Of a WITNESS what 0 SKIN, 1 SHAME, 2 DRINK, 3 SHADE, 4 PLACE, 5 what it FALLS by, 6 SHARE, 7 TOUCHED, as bits, 8 FOUND "
+                + "OUT, as bits. NoSuchElementException: another what");
         BlushCourt x = told(ROW);
         int[][] due = {{2, 3, 0, 0, 0, 7, 0, 1, 5}, {1, 0, 4, 60, 1, 7, 38, 2, 7}, {4, 5, 0, 97, 2, 7, 61, 2, 6}, {2, 3, 0, 0, 3, 7, 0, 4, 0}};
         for (int w = 0; w < 4; w++) {
@@ -226,7 +230,8 @@ public final class BlushCourtPromises extends CourtCheck {
         is("falls red", x.witness(1, 5), 37);
         is("share without", told("witness skin 1 shame 1").witness(0, 6), 0);
 
-        promise = 8;
+        holds(8, "Of a THING what 0 WEIGHT, 1 whom it TOUCHES, as bits, 2 1 if SO, 3 LEANS, as bits, 4 KNOWN, as bits (NONE). "
+                + "NoSuchElementException: another what");
         BlushCourt y = told(ROW);
         int[][] things = {{5, 1, 1, 5}, {2, 6, 1, 6}, {9, 8, 0, 6}};
         for (int t = 0; t < 3; t++) {
@@ -238,13 +243,13 @@ public final class BlushCourtPromises extends CourtCheck {
         fails("thing(0, 5)", ELEMENT, () -> y.thing(0, 5));
         fails("thing(0, -1)", ELEMENT, () -> y.thing(0, -1));
 
-        promise = 9;
+        holds(9, "THINGS that a QUESTION says, as bits");
         is("asks", y.asks(2), 7);
         fails("asks(3)", INDEX, () -> y.asks(3));
-        promise = 10;
+        holds(10, "SHARP of a woman");
         is("sharp", y.sharp(1), 20);
         fails("sharp(2)", INDEX, () -> y.sharp(2));
-        promise = 11;
+        holds(11, "Who stands in a PLACE");
         y.change(0, 2);
         is("stands(0)", y.stands(0), 2);
         is("stands(2)", y.stands(2), 0);
@@ -253,7 +258,7 @@ public final class BlushCourtPromises extends CourtCheck {
     }
 
     private static void acts() {
-        promise = 12;
+        holds(12, "So many MOMENTS more (1 to 60): how many QUESTIONS were said in these. IllegalArgumentException: they are none");
         BlushCourt x = told(DRAWN);
         is("moments(3)", x.moments(3), 3);
         is("shade", x.witness(0, 3), 58);
@@ -273,7 +278,7 @@ public final class BlushCourtPromises extends CourtCheck {
         late.moments(60);
         is("9999 at most", late.count(6), 9999);
 
-        promise = 13;
+        holds(13, "A QUESTION is said: who RISES above 0, as bits");
         BlushCourt y = told(ROW);
         is("say(0)", y.say(0), 3);
         is("shade", y.witness(0, 3), 13);
@@ -282,7 +287,7 @@ public final class BlushCourtPromises extends CourtCheck {
         is("99 at most", y.witness(2, 3), 99);
         fails("say(3)", INDEX, () -> y.say(3));
 
-        promise = 14;
+        holds(14, "Two change PLACES: that of the first one then. IllegalArgumentException: both are one");
         is("change(0, 3)", y.change(0, 3), 3);
         is("place of the other", y.witness(3, 4), 0);
         is("change(1, 0)", y.change(1, 0), 3);
@@ -290,7 +295,7 @@ public final class BlushCourtPromises extends CourtCheck {
         fails("change(4, 4)", INDEX, () -> y.change(4, 4));
         fails("change(1, 1)", ARGUMENT, () -> y.change(1, 1));
 
-        promise = 15;
+        holds(15, "One drinks: DRINK then. IllegalArgumentException: n is none (1 to 99)");
         is("drink(1, 90)", y.drink(1, 90), 94);
         is("drink(1, 6)", y.drink(1, 6), 99);
         fails("drink(4, 0)", INDEX, () -> y.drink(4, 0));
@@ -300,14 +305,14 @@ public final class BlushCourtPromises extends CourtCheck {
     }
 
     private static void tellingActs(BlushCourt y) {
-        promise = 16;
+        holds(16, "HEAT is told: what it was. IllegalArgumentException: n is none (0 to 9)");
         is("heat(9)", y.heat(9), 3);
         is("heat(0)", y.heat(0), 9);
         is("falls by 10", y.witness(0, 5), 10);
         fails("heat(-1)", ARGUMENT, () -> y.heat(-1));
         fails("heat(10)", ARGUMENT, () -> y.heat(10));
 
-        promise = 17;
+        holds(17, "A THING is SO, or not: whether that changed");
         is("tell(2, false)", y.tell(2, false), false);
         is("tell(2, true)", y.tell(2, true), true);
         is("so", y.so(), 7);
@@ -315,7 +320,8 @@ public final class BlushCourtPromises extends CourtCheck {
         is("so", y.so(), 6);
         fails("tell(3, true)", INDEX, () -> y.tell(3, true));
 
-        promise = 18;
+        holds(18, "A QUESTION says other THINGS (others than there are count for nothing): which it said, as bits. "
+                + "IllegalArgumentException: there are none");
         is("words(0, 6)", y.words(0, 6), 1);
         is("words(0, -1)", y.words(0, -1), 6);
         is("others count for nothing", y.asks(0), 7);
@@ -324,7 +330,7 @@ public final class BlushCourtPromises extends CourtCheck {
         fails("words(0, 0)", ARGUMENT, () -> y.words(0, 0));
         is("nothing changed", y.asks(0), 7);
 
-        promise = 19;
+        holds(19, "Powdered: SHADE that it was");
         is("powder", y.powder(2), 99);
         is("shade", y.witness(2, 3), 0);
         fails("powder(4)", INDEX, () -> y.powder(4));
@@ -332,34 +338,34 @@ public final class BlushCourtPromises extends CourtCheck {
 
     private static void looks() {
         BlushCourt x = told(ROW);
-        promise = 21;
+        holds(21, "SEEN, as bits");
         is("seen(0, 0)", x.seen(0, 0), 3);
         is("seen(0, 1)", x.seen(0, 1), 0);
         is("seen(1, 0)", x.seen(1, 0), 6);
         is("seen(1, 1)", x.seen(1, 1), 0);
         fails("seen(3, 0)", INDEX, () -> x.seen(3, 0));
         fails("seen(0, 2)", INDEX, () -> x.seen(0, 2));
-        promise = 22;
+        holds(22, "GIVES AWAY, as bits");
         is("gives(0)", x.gives(0), 2);
         is("gives(1)", x.gives(1), 8);
         fails("gives(3)", INDEX, () -> x.gives(3));
-        promise = 23;
+        holds(23, "WRITES");
         is("writes(0, 1)", x.writes(0, 1), 56);
         is("writes(1, 2)", x.writes(1, 2), 80);
         fails("writes(2, 0)", INDEX, () -> x.writes(2, 0));
         fails("writes(0, 4)", INDEX, () -> x.writes(0, 4));
-        promise = 24;
+        holds(24, "PALE (0, if so now); NONE");
         is("pale", x.pale(), 14);
         is("pale now", told("witness skin 1 shame 1").pale(), 0);
         is("pale without", new BlushCourt().pale(), 0);
         is("pale at 60", told("witness skin 1 shame 1 shade 60;heat 9").pale(), 60);
         is("not pale", told("witness skin 1 shame 1 shade 61;heat 9").pale(), -1);
         is("pale by the law", told("witness skin 1 shame 1 shade 70", "fall 13 if red").pale(), 7);
-        promise = 25;
+        holds(25, "REDDEST; NONE");
         is("reddest", x.reddest(), 2);
         is("reddest of none", new BlushCourt().reddest(), -1);
         is("reddest of like", told("witness skin 1 shame 1;witness skin 1 shame 1").reddest(), 0);
-        promise = 26;
+        holds(26, "PALEST; NONE");
         is("palest", x.palest(), 0);
         is("palest of none", new BlushCourt().palest(), -1);
         is("palest", told("witness skin 1 shame 1 shade 5;witness skin 1 shame 1 shade 4").palest(), 1);
@@ -370,63 +376,64 @@ public final class BlushCourtPromises extends CourtCheck {
         int[][] due = {{8, 0, 0, 0}, {4, 0, 0, 1}, {2, 3, 0, 0}, {2, 0, 3, 0}, {0, 0, 7, -1}, {2, 1, 2, 0}, {0, 0, 7, -1}};
         BlushCourt x = told(SCALE);
         for (int i = 0; i < told.length; i++) {
-            promise = 27;
+            holds(27, "Uses the TAPE up: FITS (of each three bytes: the QUESTION, the WITNESS, by how much; at most 45). "
+                    + "IllegalArgumentException: the TAPE is not that (none may be told)");
             feed(x, told[i]);
             is("fits of " + i, x.fits(), due[i][0]);
-            promise = 28;
+            holds(28, "Uses the TAPE up: SURE (the TAPE likewise), as bits. IllegalArgumentException: the TAPE is not that");
             feed(x, told[i]);
             is("sure of " + i, x.sure(), due[i][1]);
-            promise = 29;
+            holds(29, "Uses the TAPE up: NEVER (the TAPE likewise), as bits. IllegalArgumentException: the TAPE is not that");
             feed(x, told[i]);
             is("never of " + i, x.never(), due[i][2]);
-            promise = 30;
+            holds(30, "Uses the TAPE up: NEXT (the TAPE likewise); NONE. IllegalArgumentException: the TAPE is not that");
             feed(x, told[i]);
             is("next of " + i, x.next(), due[i][3]);
         }
         int[][] bad = {{0}, {0, 0}, {0, 0, 1, 0}, {2, 0, 1}, {0, 1, 1}, {255, 0, 0}, rows(16, 0, 0, 1), rows(45, 0, 0, 1),
             rows(133, 0, 0, 1)};
         for (int[] bytes : bad) {
-            promise = 27;
+            about(27);
             feed(x, bytes);
             fails("fits", ARGUMENT, () -> x.fits());
             is("the tape is used up", x.feed(0, 0, 0, 0, 0), 20);
-            promise = 28;
+            about(28);
             feed(x, bytes);
             fails("sure", ARGUMENT, () -> x.sure());
-            promise = 29;
+            about(29);
             feed(x, bytes);
             fails("never", ARGUMENT, () -> x.never());
-            promise = 30;
+            about(30);
             feed(x, bytes);
             fails("next", ARGUMENT, () -> x.next());
         }
-        promise = 27;
+        about(27);
         feed(x, rows(15, 0, 0, 1));
         is("fits of 45 bytes", x.fits(), 4);
-        promise = 28;
+        about(28);
         feed(x, rows(15, 0, 0, 2));
         is("sure of 45 bytes", x.sure(), 3);
-        promise = 29;
+        about(29);
         feed(x, rows(15, 0, 0, 0));
         is("never of 45 bytes", x.never(), 3);
-        promise = 30;
+        about(30);
         feed(x, rows(15, 0, 0, 1));
         is("next of 45 bytes", x.next(), 1);
-        promise = 27;
+        about(27);
         is("the tape is used up", x.feed(0, 0, 0, 0, 0), 20);
         x.end(0);
         BlushCourt six = told("witness skin 1 shame 0;" + times(6, "thing weight 1 touches a") + ";ask abcdef");
         is("fits of six things", six.fits(), 64);
         feed(six, 0, 0, 3);
         is("three of six", six.fits(), 20);
-        promise = 30;
+        about(30);
         BlushCourt mute = told("thing weight 1");
         is("next without questions", mute.next(), -1);
     }
 
     private static void knowing() {
         BlushCourt x = told(SCALE);
-        promise = 8;
+        about(8);
         is("known by one", x.thing(0, 4), 2);
         is("known by two", x.thing(1, 4), 3);
         is("never known", x.thing(2, 4), -1);
@@ -434,12 +441,12 @@ public final class BlushCourtPromises extends CourtCheck {
         is("the fewest, the least as bits", x.thing(1, 4), 4);
         is("known", x.thing(2, 4), 8);
         is("without questions", told("thing weight 1").thing(0, 4), -1);
-        promise = 31;
+        holds(31, "DARK, as bits");
         is("dark", told(SCALE).dark(), 4);
         is("none dark", x.dark(), 0);
         is("dark without questions", told("thing weight 1;thing weight 2").dark(), 3);
         is("dark touches nobody", told("thing weight 1;ask a").dark(), 1);
-        promise = 32;
+        holds(32, "TELLS");
         is("tells(0)", x.tells(0), 3);
         is("tells(1)", x.tells(1), 2);
         BlushCourt y = told("witness skin 1 shame 0 drink 3;thing weight 1 touches a;thing weight 4 touches a;ask ab");
@@ -449,15 +456,15 @@ public final class BlushCourtPromises extends CourtCheck {
 
     private static void parting() {
         BlushCourt x = told(times(5, "witness skin 1 shame 1") + ";thing weight 1 touches ace so;thing weight 1 touches b;ask ab;ask b");
-        promise = 33;
+        holds(33, "SHARED");
         is("shared", x.shared(0), 4);
         is("shared of nobody touched", x.shared(1), 0);
         fails("shared(2)", INDEX, () -> x.shared(2));
-        promise = 34;
+        holds(34, "APART");
         is("apart", x.apart(0), 3);
         is("apart of nobody touched", x.apart(1), 0);
         fails("apart(2)", INDEX, () -> x.apart(2));
-        promise = 35;
+        holds(35, "ROW");
         int[] due = {0, 2, 4, 1, 3};
         for (int place = 0; place < 5; place++) {
             is("row(0, " + place + ")", x.row(0, place), due[place]);
@@ -481,20 +488,21 @@ public final class BlushCourtPromises extends CourtCheck {
             {3, 0, 80}, {1, 0, 98}, {0, 1, 10, 1, 1, 21}, {0, 0, 20, 0, 0, 20}, {0, 0, 10, 1, 0, 21, 2, 1, 4}};
         int[][] due = {{0, 100}, {0, 6}, {4, 0}, {1, 0}, {2, 0}, {1, 0}, {0, 20}, {0, 2}, {1, 100}, {0, 10}, {5, 0}};
         for (int i = 0; i < told.length; i++) {
-            promise = 36;
+            holds(36, "Uses the TAPE up: WRONG (of each three bytes: the woman, the WITNESS, the number; at most 45), as bits. "
+                    + "IllegalArgumentException: the TAPE is not that (none may be told)");
             feed(x, told[i]);
             is("wrong of " + i, x.wrong(), due[i][0]);
-            promise = 37;
+            holds(37, "Uses the TAPE up: SHADES (the TAPE likewise). IllegalArgumentException: the TAPE is not that");
             feed(x, told[i]);
             is("shades of " + i, x.shades(0), due[i][1]);
         }
         int[][] bad = {{0}, {0, 0, 1, 0, 0}, {4, 0, 1}, {0, 2, 1}, {0, 0, 100}, rows(16, 0, 0, 10), rows(45, 0, 0, 10), rows(133, 0, 0, 10)};
         for (int[] bytes : bad) {
-            promise = 36;
+            about(36);
             feed(x, bytes);
             fails("wrong", ARGUMENT, () -> x.wrong());
             is("the tape is used up", x.feed(0, 0, 0, 0, 0), 20);
-            promise = 37;
+            about(37);
             feed(x, bytes);
             fails("shades", ARGUMENT, () -> x.shades(0));
             is("the tape is used up", x.feed(0, 0, 0, 0, 0), 20);
@@ -502,17 +510,17 @@ public final class BlushCourtPromises extends CourtCheck {
             fails("shades(2)", INDEX, () -> x.shades(2));
             is("the tape is used up", x.feed(0, 0, 0, 0, 0), 20);
         }
-        promise = 36;
+        about(36);
         feed(x, rows(15, 0, 0, 10));
         is("wrong of 45 bytes", x.wrong(), 0);
-        promise = 37;
+        about(37);
         feed(x, rows(15, 0, 0, 10));
         is("shades of 45 bytes", x.shades(0), 10);
     }
 
     private static void hiding() {
         BlushCourt x = told(ROW);
-        promise = 38;
+        holds(38, "VINEGAR; NONE");
         is("vinegar(0, 0)", x.vinegar(0, 0), 7);
         is("vinegar(1, 0)", x.vinegar(1, 0), -1);
         is("vinegar(3, 0)", x.vinegar(3, 0), 0);
@@ -529,7 +537,7 @@ public final class BlushCourtPromises extends CourtCheck {
         is("the most vinegar", much.vinegar(0, 0), 99);
         law(much, "rise 10");
         is("more than there is", much.vinegar(0, 0), -1);
-        promise = 39;
+        holds(39, "BETRAYS. IllegalArgumentException: both are one");
         BlushCourt y = told(ROW);
         is("betrays(0, 1)", y.betrays(0, 1), true);
         is("betrays(1, 0)", y.betrays(1, 0), false);
@@ -539,7 +547,7 @@ public final class BlushCourtPromises extends CourtCheck {
         fails("betrays(4, 4)", INDEX, () -> y.betrays(4, 4));
         fails("betrays(0, -1)", INDEX, () -> y.betrays(0, -1));
         fails("betrays(2, 2)", ARGUMENT, () -> y.betrays(2, 2));
-        promise = 40;
+        holds(40, "HEATS");
         BlushCourt z = told("witness skin 1 shame 1 shade 12;witness skin 1 shame 1 shade 45;witness skin 1 shame 1");
         is("heats of like", z.heats(), 0);
         law(z, "fall 50 if heat > 4");
@@ -554,7 +562,7 @@ public final class BlushCourtPromises extends CourtCheck {
     }
 
     private static void couples() {
-        promise = 41;
+        holds(41, "COUPLES: how many (woman NONE), or with whom one is; NONE");
         String witnesses = "witness skin 1 shame 1 shade 6;witness skin 1 shame 1 shade 10;witness skin 1 shame 1 shade 15;";
         int[][] women = {{2, 2, 3, 5}, {2, 2, 5}, {2, 2, 2, 2}, {2}, {2, 3, 5}};
         int[][] due = {{4, 2, 3, 0, 1}, {2, -1, 2, 1}, {0, -1, -1, -1, -1}, {0, -1}, {2, -1, 2, 1}};
@@ -570,7 +578,7 @@ public final class BlushCourtPromises extends CourtCheck {
             fails("couples of none", INDEX, () -> x.couples(4));
             fails("couples(-2)", INDEX, () -> x.couples(-2));
         }
-        promise = 42;
+        holds(42, "BETWEEN, as bits. IllegalArgumentException: both are one");
         BlushCourt y = told(ROW);
         is("between(0, 3)", y.between(0, 3), 6);
         is("between(3, 1)", y.between(3, 1), 4);
@@ -579,7 +587,7 @@ public final class BlushCourtPromises extends CourtCheck {
         is("between(1, 2)", y.between(1, 2), 1);
         fails("between(0, 4)", INDEX, () -> y.between(0, 4));
         fails("between(0, 0)", ARGUMENT, () -> y.between(0, 0));
-        promise = 43;
+        holds(43, "ALONE, as bits");
         is("alone", y.alone(), 1);
         y.words(1, 4);
         is("alone", y.alone(), 5);
@@ -591,7 +599,7 @@ public final class BlushCourtPromises extends CourtCheck {
     }
 
     private static void resting() {
-        promise = 44;
+        holds(44, "RESTS, as bits");
         is("both as good", rest(5, 2, 2), 5);
         is("both as good, nothing for the court", rest(9, 2, 1), 1);
         is("keeping is better", rest(3, 4, 2), 4);
@@ -603,7 +611,7 @@ public final class BlushCourtPromises extends CourtCheck {
         is("nothing to lose", x.rests(0, 0), 1);
         fails("rests(2, 0)", INDEX, () -> x.rests(2, 0));
         fails("rests(0, 1)", INDEX, () -> x.rests(0, 1));
-        promise = 45;
+        holds(45, "ODDS. IllegalArgumentException: N or K are none");
         BlushCourt y = told("false 30");
         int[][] due = {{0, 0, 10000}, {2, 1, 5100}, {3, 2, 2160}, {5, 5, 24}, {2, 3, 0}, {5, 0, 10000}, {0, 1, 0}, {1, 1, 3000}};
         for (int[] d : due) {
@@ -618,21 +626,22 @@ public final class BlushCourtPromises extends CourtCheck {
     }
 
     private static void counting() {
-        promise = 46;
+        holds(46, "WEIGHTIEST; NONE");
         BlushCourt x = told(ROW);
         is("weightiest", x.weightiest(), 2);
         is("weightiest of like", told("thing weight 3;thing weight 3").weightiest(), 0);
         is("weightiest of none", new BlushCourt().weightiest(), -1);
-        promise = 47;
+        holds(47, "TWINS");
         is("twins", x.twins(), 1);
         is("triplets", told("witness skin 1 shame 2;witness skin 1 shame 2 shade 9;witness skin 1 shame 2 drink 4").twins(), 3);
         is("no twins", told("witness skin 1 shame 2;witness skin 2 shame 1;witness skin 1 shame 1").twins(), 0);
-        promise = 48;
+        holds(48, "BLIND, as bits");
         is("blind", x.blind(), 2);
         is("all blind", told("woman sharp 1;woman sharp 2").blind(), 3);
-        promise = 49;
+        holds(49, "SO ones, as bits");
         is("so", x.so(), 3);
-        promise = 59;
+        holds(59, "0 WITNESSES, 1 THINGS, 2 QUESTIONS, 3 WOMEN, 4 texts of THE COURT, 5 LINES of THE LAW (NONE without one), 6 MOMENT, 7 "
+                + "HEAT, 8 SHADES of all together, 9 rows of THE LOG, 10 acts that can be UNDONE. NONE for another what");
         BlushCourt y = told(ROW, "rise 1;rise 2");
         y.say(1);
         y.moments(1);
@@ -644,7 +653,7 @@ public final class BlushCourtPromises extends CourtCheck {
     }
 
     private static void trying() {
-        promise = 50;
+        holds(50, "AHEAD of a WITNESS by N MOMENTS: SHADE. IllegalArgumentException: N is none (0 to 60)");
         BlushCourt x = told(ROW, "fall 20 if red");
         int[] due = {97, 70, 43, 36, 29};
         for (int n = 0; n < due.length; n++) {
@@ -654,7 +663,7 @@ public final class BlushCourtPromises extends CourtCheck {
         fails("ahead(4, 61)", INDEX, () -> x.ahead(4, 61));
         fails("ahead(0, 61)", ARGUMENT, () -> x.ahead(0, 61));
         fails("ahead(0, -1)", ARGUMENT, () -> x.ahead(0, -1));
-        promise = 51;
+        holds(51, "TRIAL: who is red (all false), or SHADES of all. IllegalArgumentException: N is none");
         BlushCourt y = told(DRAWN);
         is("trial(3, true)", y.trial(3, true), 58);
         is("trial(3, false)", y.trial(3, false), 1);
@@ -666,7 +675,7 @@ public final class BlushCourtPromises extends CourtCheck {
         is("nor the seed", y.seed(1), 1);
         fails("trial(-1, true)", ARGUMENT, () -> y.trial(-1, true));
         fails("trial(61, true)", ARGUMENT, () -> y.trial(61, true));
-        promise = 52;
+        holds(52, "SPAN: the least (most false), or the greatest. IllegalArgumentException: N is none");
         is("span of falling", x.span(2, true), 43);
         is("span of falling", x.span(2, false), 0);
         is("span now", x.span(0, true), 97);
@@ -687,7 +696,8 @@ public final class BlushCourtPromises extends CourtCheck {
     }
 
     private static void logging() {
-        promise = 54;
+        holds(54, "THE LOG so many ago (0 the latest) what 0 MOMENT, 1 the WITNESS, 2 0 to 2, 3 the QUESTION (NONE), 4 by how much; - 2 "
+                + "without. NoSuchElementException: another what");
         BlushCourt x = told(DRAWN);
         is("log of none", x.log(0, 0), -2);
         x.moments(3);
@@ -710,7 +720,7 @@ public final class BlushCourtPromises extends CourtCheck {
             is("by hand", y.log(ago, 2), 0);
             is("the question", y.log(ago, 3), 2);
         }
-        promise = 53;
+        holds(53, "LED: how many rows (moment false), or the MOMENT; NONE");
         is("led(0, false)", y.led(0, false), 1);
         is("led of none", told("witness skin 1 shame 1").led(0, true), -1);
         is("led(0, true)", x.led(0, true), 2);
@@ -725,7 +735,7 @@ public final class BlushCourtPromises extends CourtCheck {
         is("the oldest", y.log(59, 1), 0);
         is("its moment", y.log(59, 0), 5);
         is("one more", y.log(60, 1), -2);
-        promise = 55;
+        holds(55, "SEED: what it was");
         BlushCourt z = new BlushCourt();
         is("seed at first", z.seed(7), 1);
         is("seed", z.seed(1), 7);
@@ -734,7 +744,7 @@ public final class BlushCourtPromises extends CourtCheck {
     }
 
     private static void undoing() {
-        promise = 56;
+        holds(56, "UNDONE: whether there was one");
         BlushCourt x = told(ROW);
         is("undo of nothing", x.undo(), false);
         for (int n = 1; n <= 15; n++) {
@@ -778,12 +788,12 @@ public final class BlushCourtPromises extends CourtCheck {
     }
 
     private static void imaging() {
-        promise = 58;
+        holds(58, "One goes back to THE IMAGE: true; false, and nothing happens, if none was kept");
         BlushCourt x = told(ROW, "fall 3");
         is("back without an image", x.back(), false);
         x.say(0);
         x.seed(55);
-        promise = 57;
+        holds(57, "THE IMAGE is kept");
         x.image();
         String seen = scene(x);
         x.moments(9);
@@ -793,7 +803,7 @@ public final class BlushCourtPromises extends CourtCheck {
         feed(x, "heat x");
         fails("a wrong text", ARGUMENT, () -> x.court());
         x.feed(0, 0, 0, 0, 0);
-        promise = 58;
+        about(58);
         is("back", x.back(), true);
         same("all is as it was", scene(x), seen);
         is("but for fault", x.fault(), 5);
@@ -802,7 +812,7 @@ public final class BlushCourtPromises extends CourtCheck {
         x.say(0);
         is("back again", x.back(), true);
         same("all is as it was", scene(x), seen);
-        promise = 57;
+        about(57);
         BlushCourt y = told(ROW);
         y.image();
         y.say(0);

@@ -156,6 +156,17 @@ public final class EdgesOfAnswers extends CourtCheck {
         is("by drink as it is now", sureOf(x, 0, 0, 40), 1);
         is("by drink as it was", fitsOf(x, 0, 0, 90), 0);
 
+        holds(27, "(Of what is SO:) A WORLD: some set of THINGS is SO, the others are not");
+        for (int things = 0; things <= 6; things++) {
+            is("worlds of " + things + " things", fitsOf(things == 0 ? told(ONE) : told(ONE + ";" + times(things, "thing weight 1"))), 1 << things);
+        }
+        BlushCourt apart = told(ONE + ";thing weight 1 touches a so;thing weight 2 touches a;thing weight 4 touches a so;ask abc", "");
+        for (int world = 0; world < 8; world++) {
+            is("the one world of " + world, fitsOf(apart, 0, 0, world), 1);
+            is("so in it", sureOf(apart, 0, 0, world), world);
+            is("not so in it", neverOf(apart, 0, 0, world), 7 - world);
+        }
+
         holds(27, "WORLDS in which all rows are so: how many");
         BlushCourt none = new BlushCourt();
         is("without things one world", fitsOf(none), 1);
@@ -184,7 +195,7 @@ public final class EdgesOfAnswers extends CourtCheck {
     }
 
     private static void next() {
-        holds(30, "so that the greatest part is the least (of several the least; none with fewer than two, or without QUESTIONS)");
+        holds(30, "NEXT: the QUESTION for which those that fit are parted, by what all WITNESSES RISE by it, so that the greatest part is the least (of several the least; none with fewer than two, or without QUESTIONS)");
         BlushCourt x = told(ONE + ";thing weight 1 touches a;thing weight 2 touches a;thing weight 4;ask c;ask a;ask b;ask ab;ask abc", "");
         is("greatest parts 8, 4, 4, 2, 2", nextOf(x), 3);
         is("of several the least, all in one part", nextOf(x, 3, 0, 3), 0);
@@ -630,6 +641,18 @@ public final class EdgesOfAnswers extends CourtCheck {
     }
 
     private static void rests() {
+        holds(44, "RESTS of a WITNESS and a QUESTION: it tells (0) or keeps (1), unseen, the court says it (0) or does not (1): telling what is said "
+                + "it has 0 less SHAME, the court 4; telling unasked it has 1, the court 2");
+        is("no shame, much to rise by: telling what is said", rest(0, 9, 9, 0, 0), 1);
+        is("shame 9 and nothing to rise by: keeping what is said", rest(9, 0, 9, 0, 99), 4);
+        is("shame 1 as good as a rise of 5, and a weight of 1", rest(1, 0, 1, 4, 0), 1);
+        is("shame 2 for a rise of 5: the court that gets nothing by it does not ask, and unasked one tells", rest(2, 0, 1, 3, 0), 0);
+        holds(44, "keeping unasked both have nothing");
+        for (int weight = 1; weight <= 9; weight++) {
+            is("never a rest: unasked one would tell", rest(9, 0, weight, 0, 99) & 10, 0);
+        }
+        is("the court asks for nothing or more", rest(9, 0, 2, 0, 99), 4);
+        is("the court does not ask for less", rest(9, 0, 1, 0, 99), 0);
         holds(44, "keeping what is said it has 0 less RISES by 5, rounded down, the court WEIGHT of what touches it, less 2");
         is("rises 15, shame 3: both as good; weight 2: both as good", rest(3, 1, 2, 10, 0), 5);
         is("rises 14, rounded down", rest(3, 1, 2, 9, 0), 4);

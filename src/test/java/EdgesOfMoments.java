@@ -21,6 +21,7 @@ public final class EdgesOfMoments extends CourtCheck {
         draws();
         ahead();
         reading();
+        writing();
         actsAtTheirEdges();
         logRows();
         logOfSixty();
@@ -28,7 +29,7 @@ public final class EdgesOfMoments extends CourtCheck {
     }
 
     private static void weights() {
-        holds(20, "weight: WEIGHT of all THINGS that are said, are SO and TOUCH it, together (0, if nothing is said); touched: that is above 0");
+        holds(20, "Of a WITNESS: weight: WEIGHT of all THINGS that are said, are SO and TOUCH it, together (0, if nothing is said); touched: that is above 0");
         BlushCourt x = told("witness skin 1 shame 0;thing weight 1 touches a so;thing weight 2 touches a;thing weight 4 so;"
                 + "thing weight 8 touches a so;thing weight 9 touches a so;ask abcd;ask b;ask c;ask bc;ask ad;ask ade", "");
         int[] due = {9, 0, 0, 0, 9, 18};
@@ -97,7 +98,7 @@ public final class EdgesOfMoments extends CourtCheck {
     }
 
     private static void facts() {
-        holds(5, "PART: NUMBER | witness | skin | shame | drink | shade | heat | weight | place");
+        holds(5, "SUM: PART { + PART }; PART: NUMBER | witness | skin | shame | drink | shade | heat | weight | place");
         String[] parts = {"witness", "skin", "shame", "drink", "shade", "heat", "weight", "place"};
         int[] value = {1, 3, 5, 7, 50, 6, 4, 1};
         for (int i = 0; i < parts.length; i++) {
@@ -424,6 +425,24 @@ public final class EdgesOfMoments extends CourtCheck {
         }
     }
 
+    private static void writing() {
+        holds(23, "WRITES of a woman and a WITNESS: what she READS of its SHADE");
+        BlushCourt x = told("witness skin 0 shame 9 shade 59;" + TEN + " shade 98;thing weight 1 touches a so;ask a;woman sharp 20;woman sharp 7", "");
+        int[][] due = {{40, 80}, {56, 98}};
+        for (int woman = 0; woman < 2; woman++) {
+            for (int w = 0; w < 2; w++) {
+                is("writes(" + woman + ", " + w + ")", x.writes(woman, w), due[woman][w]);
+            }
+        }
+        x.say(0);
+        is("68 by 20", x.writes(0, 0), 60);
+        is("68 by 7", x.writes(1, 0), 63);
+        x.change(0, 1);
+        is("by its number, not by its place", x.writes(1, 0), 63);
+        x.powder(0);
+        is("powdered", x.writes(1, 0), 0);
+    }
+
     private static void actsAtTheirEdges() {
         holds(15, "one drinks vinegar (DRINK is more, 99 at most)");
         BlushCourt x = told(times(2, TEN) + TOUCHED_A);
@@ -496,7 +515,7 @@ public final class EdgesOfMoments extends CourtCheck {
     }
 
     private static void logRows() {
-        holds(54, "a WITNESS RISES by a QUESTION, above 0 (0, said by hand; 1, by a MOMENT), or blushes falsely (2)");
+        holds(54, "THE LOG: the latest 60 times that a WITNESS RISES by a QUESTION, above 0 (0, said by hand; 1, by a MOMENT), or blushes falsely (2)");
         BlushCourt x = told("witness skin 1 shame 0 drink 1;witness skin 1 shame 9;witness skin 1 shame 0 drink 2;"
                 + "thing weight 1 touches ab so;thing weight 1 touches a so;ask b;ask a", "");
         is("by 0", x.say(0), 0);

@@ -52,6 +52,7 @@ public final class EdgesOfRefusals extends CourtCheck {
         ofNone();
         ofAFullCourt();
         thirteenthText();
+        setsOfNone();
         lastCall();
         finish();
     }
@@ -350,6 +351,20 @@ public final class EdgesOfRefusals extends CourtCheck {
         fails("tell(6, true)", INDEX, () -> x.tell(6, true));
         fails("words(8, 1)", INDEX, () -> x.words(8, 1));
         fails("words(7, 64)", ARGUMENT, () -> x.words(7, 64));
+    }
+
+    private static void setsOfNone() {
+        holds(18, "Sets are bits; of none they count for nothing");
+        BlushCourt x = told("thing weight 1 so;thing weight 2;ask a;woman sharp 1");
+        is("bits of things that are none", x.words(0, -2), 1);
+        is("the one that there is", x.asks(0), 2);
+        is("so of two", x.so(), 1);
+        is("never, with nothing told", x.never(), 0);
+        is("women who see nobody", x.blind(), 1);
+        is("whom a thing touches of none", x.thing(0, 1), 0);
+        is("who rises of none", x.say(0), 0);
+        is("who is red of none", x.trial(0, false), 0);
+        is("wrong of none", x.wrong(), 0);
     }
 
     private static void lastCall() {

@@ -275,6 +275,23 @@ public final class EdgesOfTexts extends CourtCheck {
         courtFault(WITNESS + ";thing weight 1 so ^so");
         courtFault(WITNESS + ";thing weight 1 touches a ^touches a");
         courtFault(WITNESS + ";thing weight 1 ^weight 1");
+        holds(4, "ask T | woman sharp N | heat N | false N | talk N | moment N");
+        courtFault("thing weight 1;ask a");
+        courtFault("thing weight 1;ask^");
+        courtFault("thing weight 1;ask ^;ask a");
+        courtFault("thing weight 1;ask a ^so");
+        courtFault("woman sharp 1");
+        courtFault("woman ^1");
+        courtFault("woman sharp ^so");
+        courtFault("woman sharp 1 ^sharp 1");
+        for (String word : new String[] {"heat", "false", "talk", "moment"}) {
+            courtFault(word + " 1");
+            courtFault(word + "^");
+            courtFault(word + " ^so");
+            courtFault(word + " ^;heat 1");
+            courtFault(word + " 1 ^2");
+            courtFault(word + " 1 ^" + word + " 1");
+        }
         holds(5, "rise N [ if C ] | fall N [ if C ] | pass N [ if C ]");
         for (String kind : new String[] {"rise", "fall", "pass"}) {
             lawFault(kind + " 0");
@@ -455,7 +472,7 @@ public final class EdgesOfTexts extends CourtCheck {
     }
 
     private static void firstWrongBytes() {
-        holds(6, "the begin of the first thing that cannot stand there");
+        holds(6, "The first wrong byte: the begin of the first thing that cannot stand there");
         courtFault("heat 5;heat 5 ^heat 5;heat 10");
         courtFault("heat ^10;heat 11");
         courtFault("^;heat 10");

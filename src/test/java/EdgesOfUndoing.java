@@ -8,6 +8,15 @@ public final class EdgesOfUndoing extends CourtCheck {
     private static final Look[] ACTS = {x -> x.moments(1), x -> x.moments(3), x -> x.say(1), x -> x.change(0, 2), x -> x.drink(1, 5), x -> x.heat(7),
         x -> x.tell(1, true) ? 1 : 0, x -> x.tell(1, true) ? 1 : 0, x -> x.words(0, 2), x -> x.powder(0), x -> x.heat(7), x -> x.tell(0, false) ? 1 : 0};
 
+    /** All that is asked changes nothing and is none; nor are seeds, an image, the tape and what was undone. */
+    private static final Look[] NO_ACTS = {x -> x.fault(), x -> x.witness(0, 8), x -> x.thing(0, 4), x -> x.asks(0), x -> x.sharp(0), x -> x.stands(0),
+        x -> x.rises(0, 0), x -> x.seen(0, 0), x -> x.gives(0), x -> x.writes(0, 0), x -> x.pale(), x -> x.reddest(), x -> x.palest(),
+        x -> x.fits(), x -> x.sure(), x -> x.never(), x -> x.next(), x -> x.dark(), x -> x.tells(0), x -> x.shared(0), x -> x.apart(0),
+        x -> x.row(0, 0), x -> x.wrong(), x -> x.shades(0), x -> x.vinegar(0, 0), x -> x.betrays(0, 1) ? 1 : 0, x -> x.heats(), x -> x.couples(0),
+        x -> x.between(0, 2), x -> x.alone(), x -> x.rests(0, 0), x -> x.odds(5, 1), x -> x.weightiest(), x -> x.twins(), x -> x.blind(), x -> x.so(),
+        x -> x.ahead(0, 60), x -> x.trial(60, true), x -> x.span(60, true), x -> x.led(0, true), x -> x.log(0, 0), x -> x.seed(9),
+        x -> x.undo() ? 1 : 0, x -> x.count(10), x -> x.feed(1, 2, 3, 4, 5), x -> x.end(0) ? 1 : 0, x -> { x.image(); return 0; }};
+
     public static void main(String[] args) {
         eachAct();
         twelve();
@@ -36,6 +45,19 @@ public final class EdgesOfUndoing extends CourtCheck {
     }
 
     private static void eachAct() {
+        holds(56, "ACTS: MOMENTS; a QUESTION is said; two change PLACES; one drinks vinegar (DRINK is more, 99 at most); HEAT is told; "
+                + "a THING is SO from then on, or not; a QUESTION says other THINGS; a WITNESS is powdered (SHADE 0)");
+        for (Look act : ACTS) {
+            BlushCourt x = made();
+            act.on(x);
+            is("an act is one that can be undone", x.count(10), 1);
+        }
+        for (Look call : NO_ACTS) {
+            BlushCourt x = made();
+            call.on(x);
+            is("no act", x.count(10), 0);
+            is("nothing to be undone", x.undo(), false);
+        }
         holds(56, "UNDONE: the latest ACT not undone yet");
         for (int n = 0; n < ACTS.length; n++) {
             BlushCourt x = behind(n + 1);

@@ -11,12 +11,16 @@ class CourtCheck {
     static final Class<?> UNSUPPORTED = UnsupportedOperationException.class;
     static final int NONE = BlushCourt.NONE;
 
+    static final int PROMISES = 59;
+
     static int promise = 0;
     private static final Path DOC = Path.of("../shared/DOC.md");
     private static String document = null;
     private static String words = "";
     private static int wrong = 0;
     private static int checks = 0;
+    private static final String[] quoted = new String[PROMISES + 1];
+    private static final int[] checksOf = new int[PROMISES + 1];
 
     interface Call {
         void run();
@@ -34,13 +38,30 @@ class CourtCheck {
     static void holds(int number, String said) {
         promise = number;
         words = said;
+        quoted[number] = said;
         if (!document().contains(said)) {
             wrong++;
             System.out.println("promise " + number + ": the document does not say: " + said);
         }
     }
 
-    private static String document() {
+    /** The checks that follow are of a promise again, and hold to the words that were quoted for it latest. */
+    static void about(int number) {
+        promise = number;
+        words = quoted[number] == null ? "" : quoted[number];
+    }
+
+    /** Each promise has been checked here, so that none is left without a test by mistake. */
+    static void needEachPromise() {
+        for (int number = 1; number <= PROMISES; number++) {
+            if (checksOf[number] == 0) {
+                wrong++;
+                System.out.println("promise " + number + " is not checked");
+            }
+        }
+    }
+
+    static String document() {
         if (document == null) {
             try {
                 document = Files.readString(DOC).replaceAll("\\s+", " ");
@@ -57,8 +78,13 @@ class CourtCheck {
                 + (words.isEmpty() ? "" : " (" + words + ")"));
     }
 
-    static void is(String what, long got, long due) {
+    private static void count() {
         checks++;
+        checksOf[promise]++;
+    }
+
+    static void is(String what, long got, long due) {
+        count();
         if (got != due) {
             tell(what, got, due);
         }
@@ -69,14 +95,14 @@ class CourtCheck {
     }
 
     static void same(String what, String got, String due) {
-        checks++;
+        count();
         if (!got.equals(due)) {
             tell(what, got, due);
         }
     }
 
     static void fails(String what, Class<?> due, Call call) {
-        checks++;
+        count();
         String got = "nothing";
         try {
             call.run();
