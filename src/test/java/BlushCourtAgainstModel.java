@@ -1,3 +1,5 @@
+import java.lang.reflect.Method;
+import java.lang.reflect.Modifier;
 import java.math.BigInteger;
 import java.util.ArrayDeque;
 import java.util.ArrayList;
@@ -46,10 +48,15 @@ public final class BlushCourtAgainstModel {
 
     /** A run that never answers, or never throws, would show nothing. */
     private static void checkTally() {
-        for (Map.Entry<String, int[]> e : tally.entrySet()) {
-            if (e.getValue()[0] == 0) {
+        for (Method method : BlushCourt.class.getDeclaredMethods()) {
+            if (!Modifier.isPublic(method.getModifiers())) {
+                continue;
+            }
+            int[] often = tally.getOrDefault(method.getName(), new int[2]);
+            boolean throwing = method.getExceptionTypes().length > 0;
+            if (often[0] == 0 || throwing != often[1] > 0) {
                 wrong++;
-                System.out.println(e.getKey() + " never answered");
+                System.out.println(method.getName() + " answered " + often[0] + " times and threw " + often[1] + " times");
             }
         }
     }

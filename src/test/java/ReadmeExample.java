@@ -1,10 +1,7 @@
-import java.io.ByteArrayOutputStream;
+import java.io.File;
 import java.io.IOException;
-import java.io.PrintStream;
 import java.lang.reflect.Method;
 import java.lang.reflect.Modifier;
-import java.net.URL;
-import java.net.URLClassLoader;
 import java.nio.charset.StandardCharsets;
 import java.nio.file.DirectoryStream;
 import java.nio.file.Files;
@@ -14,8 +11,6 @@ import java.util.Arrays;
 import java.util.List;
 import java.util.regex.Matcher;
 import java.util.regex.Pattern;
-import javax.tools.JavaCompiler;
-import javax.tools.ToolProvider;
 
 /** README.md does what it says: its example compiles and prints what stands behind it, and no call or test is left out. */
 public final class ReadmeExample {
@@ -28,7 +23,7 @@ public final class ReadmeExample {
         }
     }
 
-    public static void main(String[] args) throws IOException, ReflectiveOperationException {
+    public static void main(String[] args) throws IOException, InterruptedException {
         String readme = Files.readString(Path.of("README.md"));
         example(readme);
         calls(readme);
@@ -40,7 +35,7 @@ public final class ReadmeExample {
         }
     }
 
-    private static void example(String readme) throws IOException, ReflectiveOperationException {
+    private static void example(String readme) throws IOException, InterruptedException {
         Matcher block = Pattern.compile("(?s)```java\n(.*?)```").matcher(readme);
         is("an example stands there", block.find(), true);
         String code = block.group(1);
@@ -54,26 +49,24 @@ public final class ReadmeExample {
         is("what the example prints", printed(code), due);
     }
 
-    private static List<String> printed(String code) throws IOException, ReflectiveOperationException {
+    private static List<String> printed(String code) throws IOException, InterruptedException {
         Path place = Files.createTempDirectory("readme");
         Path source = place.resolve("Example.java");
         Files.writeString(source, code);
-        JavaCompiler javac = ToolProvider.getSystemJavaCompiler();
-        int compiled = javac.run(null, null, null, "-cp", System.getProperty("java.class.path"), "-d", place.toString(), source.toString());
-        is("the example compiles", compiled, 0);
-        PrintStream out = System.out;
-        ByteArrayOutputStream told = new ByteArrayOutputStream();
-        try (URLClassLoader loader = new URLClassLoader(new URL[] {place.toUri().toURL()})) {
-            Method main = loader.loadClass("Example").getMethod("main", String[].class);
-            System.setOut(new PrintStream(told, true, StandardCharsets.US_ASCII));
-            main.invoke(null, (Object) new String[0]);
-        } finally {
-            System.setOut(out);
-            Files.deleteIfExists(place.resolve("Example.class"));
-            Files.deleteIfExists(source);
-            Files.deleteIfExists(place);
-        }
-        return Arrays.asList(told.toString(StandardCharsets.US_ASCII).split("\\R"));
+        String classes = System.getProperty("java.class.path");
+        is("what javac says of the example", run("javac", "-Xlint:all", "-cp", classes, "-d", place.toString(), source.toString()), new ArrayList<>());
+        List<String> told = run("java", "-cp", classes + File.pathSeparator + place, "Example");
+        Files.deleteIfExists(place.resolve("Example.class"));
+        Files.deleteIfExists(source);
+        Files.deleteIfExists(place);
+        return told;
+    }
+
+    private static List<String> run(String... command) throws IOException, InterruptedException {
+        Process process = new ProcessBuilder(command).redirectErrorStream(true).start();
+        String told = new String(process.getInputStream().readAllBytes(), StandardCharsets.US_ASCII);
+        process.waitFor();
+        return told.isEmpty() ? new ArrayList<>() : Arrays.asList(told.split("\\R"));
     }
 
     private static void calls(String readme) {
